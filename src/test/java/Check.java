@@ -1,0 +1,58 @@
+/** Counts what holds and what does not, and prints what does not. */
+final class Check {
+    interface Call {
+        Object answer();
+    }
+
+    private final String name;
+    private int held = 0;
+    private int broken = 0;
+
+    Check(String name) {
+        this.name = name;
+    }
+
+    void equal(String what, Object got, Object due) {
+        if (due.equals(got)) {
+            held++;
+        } else {
+            broken++;
+            System.out.println(name + ": " + what + " answered " + got + ", due is " + due);
+        }
+    }
+
+    void isTrue(String what, boolean got) {
+        equal(what, got, true);
+    }
+
+    void isFalse(String what, boolean got) {
+        equal(what, got, false);
+    }
+
+    /** The call throws just this class, no class below it: an index of an array, say, is no answer. */
+    void fails(String what, Class<? extends RuntimeException> due, Call call) {
+        equal(what, outcome(call), "throws " + due.getSimpleName());
+    }
+
+    /** The call throws, and what can be asked of the object is the same behind it. */
+    void failsAndKeeps(BooleanConstraints object, String what, Class<? extends RuntimeException> due, Call call) {
+        String before = Portrait.of(object);
+        fails(what, due, call);
+        equal(what + " keeps the state", Portrait.of(object), before);
+    }
+
+    static String outcome(Call call) {
+        try {
+            return String.valueOf(call.answer());
+        } catch (RuntimeException e) {
+            return "throws " + e.getClass().getSimpleName();
+        }
+    }
+
+    void end() {
+        System.out.println(name + ": " + held + " checks held, " + broken + " did not");
+        if (broken != 0 || held == 0) {
+            System.exit(1);
+        }
+    }
+}

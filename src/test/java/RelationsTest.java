@@ -1,0 +1,342 @@
+/** Promises 1 to 16: a new object, and relations. */
+public final class RelationsTest {
+    private static final Check CHECK = new Check("RelationsTest");
+    private static final Class<IllegalArgumentException> ARGUMENT = IllegalArgumentException.class;
+    private static final Class<IllegalStateException> STATE = IllegalStateException.class;
+    private static final Class<IndexOutOfBoundsException> INDEX = IndexOutOfBoundsException.class;
+    private static final int[] BELOW_AND_ABOVE = {Integer.MIN_VALUE, -1, 0, 5, 32, 33, Integer.MAX_VALUE};
+
+    public static void main(String[] args) {
+        newObject();
+        addRelation();
+        addClause();
+        addParity();
+        addTuple();
+        removeTuple();
+        contains();
+        tupleCount();
+        arity();
+        relationCount();
+        areEqual();
+        clear();
+        addComplement();
+        addIntersection();
+        addProjection();
+        addExchanged();
+        CHECK.end();
+    }
+
+    private static BooleanConstraints full() {
+        BooleanConstraints x = new BooleanConstraints();
+        for (int i = 0; i < 8; i++) {
+            x.addRelation(1 + i % 4);
+        }
+        return x;
+    }
+
+    /** An object with one relation that has given tuples. */
+    private static BooleanConstraints with(int arity, int... tuples) {
+        BooleanConstraints x = new BooleanConstraints();
+        add(x, arity, tuples);
+        return x;
+    }
+
+    private static int add(BooleanConstraints x, int arity, int... tuples) {
+        int relation = x.addRelation(arity);
+        for (int tuple : tuples) {
+            x.addTuple(relation, tuple);
+        }
+        return relation;
+    }
+
+    private static void newObject() {
+        BooleanConstraints x = new BooleanConstraints();
+        CHECK.equal("1: relationCount", x.relationCount(), 0);
+        CHECK.equal("1: variables", Portrait.variables(x), 1);
+        CHECK.equal("1: solutionCount", x.solutionCount(), 2);
+        CHECK.fails("1: no constraints", STATE, x::removeLastConstraint);
+        CHECK.fails("1: no error position", STATE, x::errorPosition);
+        CHECK.fails("1: no output", INDEX, () -> x.outputAt(0));
+        CHECK.fails("1: no snapshot", STATE, x::restoreSnapshot);
+        for (int slot = 0; slot < 3; slot++) {
+            final int asked = slot;
+            CHECK.fails("1: no flags", STATE, () -> x.setFlag(asked, 0, true));
+        }
+        CHECK.equal("1: no input", x.append('0'), 1);
+        new BooleanConstraints().addRelation(2);
+        CHECK.equal("1: another object is another one", x.relationCount(), 0);
+    }
+
+    private static void addRelation() {
+        BooleanConstraints x = new BooleanConstraints();
+        for (int i = 0; i < 8; i++) {
+            CHECK.equal("2: number", x.addRelation(1 + i % 4), i);
+            CHECK.equal("2: arity", x.arity(i), 1 + i % 4);
+            CHECK.equal("2: no tuples", Portrait.tuples(x, i), 0);
+        }
+        CHECK.failsAndKeeps(x, "2: a ninth", STATE, () -> x.addRelation(1));
+        for (int wrong : BELOW_AND_ABOVE) {
+            CHECK.failsAndKeeps(x, "2: arity before room", ARGUMENT, () -> x.addRelation(wrong));
+        }
+        BooleanConstraints y = new BooleanConstraints();
+        CHECK.failsAndKeeps(y, "2: arity 0", ARGUMENT, () -> y.addRelation(0));
+        CHECK.failsAndKeeps(y, "2: arity 5", ARGUMENT, () -> y.addRelation(5));
+        x.clear();
+        x.addClause(4, 0);
+        x.clear();
+        x.addRelation(4);
+        CHECK.equal("2: no tuples of a relation that was there before", Portrait.tuples(x, 0), 0);
+    }
+
+    private static void addClause() {
+        for (int arity = 1; arity <= 4; arity++) {
+            for (int signs = 0; signs < 1 << arity; signs++) {
+                BooleanConstraints x = new BooleanConstraints();
+                CHECK.equal("3: number", x.addClause(arity, signs), 0);
+                CHECK.equal("3: arity", x.arity(0), arity);
+                CHECK.equal("3: tuples", Portrait.tuples(x, 0), ((1 << (1 << arity)) - 1) ^ (1 << signs));
+            }
+            BooleanConstraints x = new BooleanConstraints();
+            final int asked = arity;
+            for (int wrong : new int[] {-1, 1 << arity, Integer.MIN_VALUE, Integer.MAX_VALUE}) {
+                CHECK.failsAndKeeps(x, "3: signs", ARGUMENT, () -> x.addClause(asked, wrong));
+            }
+        }
+        BooleanConstraints x = full();
+        CHECK.failsAndKeeps(x, "3: a ninth", STATE, () -> x.addClause(4, 15));
+        CHECK.failsAndKeeps(x, "3: signs before room", ARGUMENT, () -> x.addClause(2, 4));
+        for (int wrong : BELOW_AND_ABOVE) {
+            CHECK.failsAndKeeps(x, "3: arity before room", ARGUMENT, () -> x.addClause(wrong, 0));
+        }
+    }
+
+    private static void addParity() {
+        for (int arity = 1; arity <= 4; arity++) {
+            for (int sum = 0; sum <= 1; sum++) {
+                BooleanConstraints x = new BooleanConstraints();
+                CHECK.equal("4: number", x.addParity(arity, sum), 0);
+                CHECK.equal("4: arity", x.arity(0), arity);
+                for (int tuple = 0; tuple < 1 << arity; tuple++) {
+                    int total = (tuple & 1) + (tuple >> 1 & 1) + (tuple >> 2 & 1) + (tuple >> 3);
+                    CHECK.equal("4: tuple " + tuple, x.contains(0, tuple), total % 2 == sum);
+                }
+            }
+        }
+        BooleanConstraints x = full();
+        CHECK.failsAndKeeps(x, "4: a ninth", STATE, () -> x.addParity(4, 1));
+        for (int wrong : new int[] {-1, 2, Integer.MIN_VALUE, Integer.MAX_VALUE}) {
+            CHECK.failsAndKeeps(x, "4: sum before room", ARGUMENT, () -> x.addParity(2, wrong));
+        }
+        for (int wrong : BELOW_AND_ABOVE) {
+            CHECK.failsAndKeeps(x, "4: arity before room", ARGUMENT, () -> x.addParity(wrong, 0));
+        }
+        BooleanConstraints y = new BooleanConstraints();
+        CHECK.failsAndKeeps(y, "4: sum", ARGUMENT, () -> y.addParity(1, 2));
+        CHECK.failsAndKeeps(y, "4: arity", ARGUMENT, () -> y.addParity(5, 1));
+    }
+
+    private static void addTuple() {
+        BooleanConstraints x = new BooleanConstraints();
+        for (int arity = 1; arity <= 4; arity++) {
+            int relation = x.addRelation(arity);
+            for (int tuple = (1 << arity) - 1; tuple >= 0; tuple--) {
+                CHECK.isTrue("5: a new tuple", x.addTuple(relation, tuple));
+                CHECK.isFalse("5: the tuple again", x.addTuple(relation, tuple));
+                CHECK.equal("5: tupleCount", x.tupleCount(relation), (1 << arity) - tuple);
+            }
+            final int asked = 1 << arity;
+            CHECK.failsAndKeeps(x, "5: too many digits", ARGUMENT, () -> x.addTuple(relation, asked));
+            CHECK.failsAndKeeps(x, "5: negative", ARGUMENT, () -> x.addTuple(relation, -1));
+            CHECK.failsAndKeeps(x, "5: least", ARGUMENT, () -> x.addTuple(relation, Integer.MIN_VALUE));
+            CHECK.failsAndKeeps(x, "5: greatest", ARGUMENT, () -> x.addTuple(relation, Integer.MAX_VALUE));
+        }
+        CHECK.failsAndKeeps(x, "5: relation", INDEX, () -> x.addTuple(4, 0));
+        CHECK.failsAndKeeps(x, "5: relation before tuple", INDEX, () -> x.addTuple(-1, 99));
+        CHECK.failsAndKeeps(x, "5: relation before tuple", INDEX, () -> x.addTuple(4, -1));
+    }
+
+    private static void removeTuple() {
+        BooleanConstraints x = new BooleanConstraints();
+        for (int arity = 1; arity <= 4; arity++) {
+            int relation = x.addClause(arity, 1);
+            CHECK.isFalse("6: a tuple that is not there", x.removeTuple(relation, 1));
+            CHECK.isTrue("6: a tuple that is there", x.removeTuple(relation, 0));
+            CHECK.isFalse("6: the tuple again", x.removeTuple(relation, 0));
+            CHECK.equal("6: the others stay", x.tupleCount(relation), (1 << arity) - 2);
+            final int asked = 1 << arity;
+            CHECK.failsAndKeeps(x, "6: too many digits", ARGUMENT, () -> x.removeTuple(relation, asked));
+            CHECK.failsAndKeeps(x, "6: negative", ARGUMENT, () -> x.removeTuple(relation, -1));
+            CHECK.failsAndKeeps(x, "6: a shift's length", ARGUMENT, () -> x.removeTuple(relation, 33));
+        }
+        CHECK.failsAndKeeps(x, "6: relation before tuple", INDEX, () -> x.removeTuple(4, 16));
+        CHECK.failsAndKeeps(x, "6: relation", INDEX, () -> x.removeTuple(-1, 0));
+    }
+
+    private static void contains() {
+        BooleanConstraints x = with(3, 2, 7);
+        for (int tuple = 0; tuple < 8; tuple++) {
+            CHECK.equal("7: tuple " + tuple, x.contains(0, tuple), tuple == 2 || tuple == 7);
+        }
+        for (int wrong : new int[] {8, -1, 34, Integer.MIN_VALUE, Integer.MAX_VALUE}) {
+            CHECK.failsAndKeeps(x, "7: tuple", ARGUMENT, () -> x.contains(0, wrong));
+        }
+        CHECK.failsAndKeeps(x, "7: relation before tuple", INDEX, () -> x.contains(1, 8));
+        CHECK.failsAndKeeps(x, "7: relation", INDEX, () -> x.contains(-1, 0));
+        CHECK.failsAndKeeps(x, "7: relation", INDEX, () -> x.contains(Integer.MAX_VALUE, 0));
+    }
+
+    private static void tupleCount() {
+        BooleanConstraints x = new BooleanConstraints();
+        CHECK.fails("8: no relation", INDEX, () -> x.tupleCount(0));
+        x.addRelation(4);
+        for (int tuple = 0; tuple < 16; tuple++) {
+            CHECK.equal("8: count", x.tupleCount(0), tuple);
+            x.addTuple(0, tuple);
+        }
+        CHECK.equal("8: all", x.tupleCount(0), 16);
+        CHECK.failsAndKeeps(x, "8: relation", INDEX, () -> x.tupleCount(1));
+        CHECK.failsAndKeeps(x, "8: relation", INDEX, () -> x.tupleCount(-1));
+    }
+
+    private static void arity() {
+        BooleanConstraints x = full();
+        for (int i = 0; i < 8; i++) {
+            CHECK.equal("9: arity", x.arity(i), 1 + i % 4);
+        }
+        CHECK.failsAndKeeps(x, "9: relation", INDEX, () -> x.arity(8));
+        CHECK.failsAndKeeps(x, "9: relation", INDEX, () -> x.arity(-1));
+        x.clear();
+        CHECK.failsAndKeeps(x, "9: a relation that was removed", INDEX, () -> x.arity(0));
+    }
+
+    private static void relationCount() {
+        BooleanConstraints x = new BooleanConstraints();
+        for (int i = 0; i < 8; i++) {
+            CHECK.equal("10: count", x.relationCount(), i);
+            x.addRelation(2);
+        }
+        CHECK.equal("10: all", x.relationCount(), 8);
+    }
+
+    private static void areEqual() {
+        BooleanConstraints x = with(2, 0, 1);
+        add(x, 2, 1, 0);
+        add(x, 3, 0, 1);
+        add(x, 2, 0, 2);
+        add(x, 3);
+        add(x, 2);
+        CHECK.isTrue("11: itself", x.areEqual(0, 0));
+        CHECK.isTrue("11: the same tuples", x.areEqual(0, 1));
+        CHECK.isFalse("11: another arity", x.areEqual(0, 2));
+        CHECK.isFalse("11: other tuples", x.areEqual(3, 0));
+        CHECK.isFalse("11: another arity without tuples", x.areEqual(4, 5));
+        CHECK.isTrue("11: itself without tuples", x.areEqual(5, 5));
+        CHECK.failsAndKeeps(x, "11: first", INDEX, () -> x.areEqual(6, 0));
+        CHECK.failsAndKeeps(x, "11: second", INDEX, () -> x.areEqual(0, 6));
+        CHECK.failsAndKeeps(x, "11: first", INDEX, () -> x.areEqual(-1, 0));
+        CHECK.failsAndKeeps(x, "11: second", INDEX, () -> x.areEqual(0, -1));
+        CHECK.failsAndKeeps(x, "11: no such relation is equal to itself", INDEX, () -> x.areEqual(7, 7));
+    }
+
+    private static void clear() {
+        BooleanConstraints x = with(2, 1, 2);
+        x.addClause(3, 0);
+        x.setVariables(4);
+        x.addConstraint(0, 0, 1, 0, 0);
+        x.append('1');
+        x.append('1');
+        x.write(0);
+        x.storeFlags(1, 3, 0);
+        CHECK.equal("12: removed", x.clear(), 2);
+        CHECK.equal("12: no relations", x.relationCount(), 0);
+        CHECK.equal("12: the variables stay", Portrait.variables(x), 4);
+        CHECK.equal("12: no constraints", x.solutionCount(), 16);
+        CHECK.fails("12: no constraints", STATE, x::removeLastConstraint);
+        CHECK.equal("12: the output stays", Portrait.output(x), "10,01");
+        CHECK.equal("12: the input stays", x.parse(), 0);
+        CHECK.equal("12: the input stays", Portrait.tuples(x, 0), 8);
+        CHECK.equal("12: the flags stay", x.takeFlags(1, 0), 2);
+        CHECK.equal("12: again", x.clear(), 1);
+        CHECK.equal("12: nothing", x.clear(), 0);
+    }
+
+    private static void addComplement() {
+        BooleanConstraints x = with(3, 0, 5);
+        CHECK.equal("13: number", x.addComplement(0), 1);
+        CHECK.equal("13: arity", x.arity(1), 3);
+        CHECK.equal("13: tuples", Portrait.tuples(x, 1), 0xFF ^ 0x21);
+        CHECK.equal("13: the relation stays", Portrait.tuples(x, 0), 0x21);
+        x.addRelation(4);
+        CHECK.equal("13: of no tuples", Portrait.tuples(x, x.addComplement(2)), 0xFFFF);
+        CHECK.equal("13: of all tuples", Portrait.tuples(x, x.addComplement(3)), 0);
+        CHECK.failsAndKeeps(x, "13: relation", INDEX, () -> x.addComplement(5));
+        CHECK.failsAndKeeps(x, "13: relation", INDEX, () -> x.addComplement(-1));
+        BooleanConstraints y = full();
+        CHECK.failsAndKeeps(y, "13: a ninth", STATE, () -> y.addComplement(7));
+        CHECK.failsAndKeeps(y, "13: relation before room", INDEX, () -> y.addComplement(8));
+    }
+
+    private static void addIntersection() {
+        BooleanConstraints x = with(2, 0, 1, 3);
+        add(x, 2, 1, 2, 3);
+        add(x, 3, 1, 2, 3);
+        CHECK.equal("14: number", x.addIntersection(0, 1), 3);
+        CHECK.equal("14: arity", x.arity(3), 2);
+        CHECK.equal("14: tuples", Portrait.tuples(x, 3), 0xA);
+        CHECK.equal("14: with itself", Portrait.tuples(x, x.addIntersection(2, 2)), 0xE);
+        CHECK.failsAndKeeps(x, "14: arities", ARGUMENT, () -> x.addIntersection(0, 2));
+        CHECK.failsAndKeeps(x, "14: first", INDEX, () -> x.addIntersection(5, 0));
+        CHECK.failsAndKeeps(x, "14: second", INDEX, () -> x.addIntersection(0, 5));
+        CHECK.failsAndKeeps(x, "14: second", INDEX, () -> x.addIntersection(0, -1));
+        BooleanConstraints y = full();
+        CHECK.failsAndKeeps(y, "14: a ninth", STATE, () -> y.addIntersection(0, 4));
+        CHECK.failsAndKeeps(y, "14: arities before room", ARGUMENT, () -> y.addIntersection(0, 1));
+        CHECK.failsAndKeeps(y, "14: relation before room", INDEX, () -> y.addIntersection(0, 8));
+    }
+
+    private static void addProjection() {
+        BooleanConstraints x = with(4, 0b1010, 0b0010, 0b0111);
+        int[] due = {1 << 0b101 | 1 << 0b001 | 1 << 0b011, 1 << 0b100 | 1 << 0b000 | 1 << 0b011,
+            1 << 0b110 | 1 << 0b010 | 1 << 0b011, 1 << 0b010 | 1 << 0b111};
+        for (int position = 0; position < 4; position++) {
+            CHECK.equal("15: number", x.addProjection(0, position), 1 + position);
+            CHECK.equal("15: arity", x.arity(1 + position), 3);
+            CHECK.equal("15: tuples", Portrait.tuples(x, 1 + position), due[position]);
+        }
+        x.addProjection(1, 0);
+        x.addProjection(5, 1);
+        CHECK.equal("15: arity 1", x.arity(6), 1);
+        CHECK.failsAndKeeps(x, "15: arity 1", ARGUMENT, () -> x.addProjection(6, 0));
+        CHECK.failsAndKeeps(x, "15: position before arity 1", INDEX, () -> x.addProjection(6, 1));
+        CHECK.failsAndKeeps(x, "15: position", INDEX, () -> x.addProjection(0, 4));
+        CHECK.failsAndKeeps(x, "15: position", INDEX, () -> x.addProjection(0, -1));
+        CHECK.failsAndKeeps(x, "15: relation", INDEX, () -> x.addProjection(7, 0));
+        BooleanConstraints y = full();
+        CHECK.failsAndKeeps(y, "15: a ninth", STATE, () -> y.addProjection(1, 1));
+        CHECK.failsAndKeeps(y, "15: arity 1 before room", ARGUMENT, () -> y.addProjection(0, 0));
+        CHECK.failsAndKeeps(y, "15: position before room", INDEX, () -> y.addProjection(1, 2));
+        CHECK.failsAndKeeps(y, "15: relation before room", INDEX, () -> y.addProjection(-1, 0));
+        BooleanConstraints z = with(2);
+        CHECK.equal("15: of no tuples", Portrait.tuples(z, z.addProjection(0, 1)), 0);
+    }
+
+    private static void addExchanged() {
+        BooleanConstraints x = with(4, 0b0001, 0b1001, 0b0100);
+        CHECK.equal("16: number", x.addExchanged(0, 0, 2), 1);
+        CHECK.equal("16: arity", x.arity(1), 4);
+        CHECK.equal("16: tuples", Portrait.tuples(x, 1), 1 << 0b0100 | 1 << 0b1100 | 1 << 0b0001);
+        CHECK.equal("16: the other way", Portrait.tuples(x, x.addExchanged(0, 2, 0)), Portrait.tuples(x, 1));
+        CHECK.equal("16: the same position", Portrait.tuples(x, x.addExchanged(0, 3, 3)), Portrait.tuples(x, 0));
+        CHECK.equal("16: the last position", Portrait.tuples(x, x.addExchanged(0, 3, 1)),
+            1 << 0b0001 | 1 << 0b0011 | 1 << 0b0100);
+        CHECK.failsAndKeeps(x, "16: i", INDEX, () -> x.addExchanged(0, 4, 0));
+        CHECK.failsAndKeeps(x, "16: j", INDEX, () -> x.addExchanged(0, 0, 4));
+        CHECK.failsAndKeeps(x, "16: i", INDEX, () -> x.addExchanged(0, -1, 0));
+        CHECK.failsAndKeeps(x, "16: j", INDEX, () -> x.addExchanged(0, 0, -1));
+        CHECK.failsAndKeeps(x, "16: relation", INDEX, () -> x.addExchanged(5, 0, 0));
+        BooleanConstraints y = full();
+        CHECK.failsAndKeeps(y, "16: a ninth", STATE, () -> y.addExchanged(0, 0, 0));
+        CHECK.failsAndKeeps(y, "16: position before room", INDEX, () -> y.addExchanged(0, 0, 1));
+        CHECK.failsAndKeeps(y, "16: relation before room", INDEX, () -> y.addExchanged(8, 0, 0));
+    }
+}
