@@ -41,6 +41,15 @@ final class Check {
         equal(what + " keeps the state", Portrait.of(object), before);
     }
 
+    /** The input is refused as a text, with its error position, and leaves nothing behind. */
+    void refusesText(BooleanConstraints object, String text, int position) {
+        int relations = object.relationCount();
+        fails("47: '" + text + "'", IllegalArgumentException.class, object::parse);
+        equal("48: '" + text + "'", object.errorPosition(), position);
+        equal("47: no relation of '" + text + "'", object.relationCount(), relations);
+        equal("47: the input is empty behind '" + text + "'", object.append('0'), 1);
+    }
+
     static String outcome(Call call) {
         try {
             return String.valueOf(call.answer());

@@ -1,0 +1,415 @@
+/** Promises 32 to 45: instances. */
+public final class InstancesTest {
+    private static final Check CHECK = new Check("InstancesTest");
+    private static final Class<IllegalArgumentException> ARGUMENT = IllegalArgumentException.class;
+    private static final Class<IllegalStateException> STATE = IllegalStateException.class;
+    private static final Class<IndexOutOfBoundsException> INDEX = IndexOutOfBoundsException.class;
+    private static final Class<UnsupportedOperationException> KIND = UnsupportedOperationException.class;
+    private static final Class<java.util.NoSuchElementException> NONE = java.util.NoSuchElementException.class;
+    private static final int[] NO_BITS = {-1, 2, Integer.MIN_VALUE, Integer.MAX_VALUE};
+
+    public static void main(String[] args) {
+        setVariables();
+        addConstraint();
+        addConstraintPositions();
+        removeLastConstraint();
+        solutionCount();
+        solution();
+        isForced();
+        leastSolution();
+        greatestSolution();
+        implies();
+        dimension();
+        define();
+        firstViolated();
+        isRedundant();
+        removeRedundant();
+        CHECK.end();
+    }
+
+    private static BooleanConstraints with(int variables) {
+        BooleanConstraints x = new BooleanConstraints();
+        x.setVariables(variables);
+        return x;
+    }
+
+    private static int add(BooleanConstraints x, int arity, int... tuples) {
+        int relation = x.addRelation(arity);
+        for (int tuple : tuples) {
+            x.addTuple(relation, tuple);
+        }
+        return relation;
+    }
+
+    private static void solutionsAre(String what, BooleanConstraints x, int... due) {
+        CHECK.equal(what + ": count", x.solutionCount(), due.length);
+        for (int i = 0; i < due.length; i++) {
+            CHECK.equal(what + ": solution " + i, x.solution(i), due[i]);
+        }
+        CHECK.fails(what + ": behind the last", NONE, () -> x.solution(due.length));
+    }
+
+    private static void setVariables() {
+        BooleanConstraints x = new BooleanConstraints();
+        for (int count = 1; count <= 10; count++) {
+            CHECK.equal("32: none removed", x.setVariables(count), 0);
+            CHECK.equal("32: solutions", x.solutionCount(), 1 << count);
+        }
+        x.addClause(2, 0);
+        x.addConstraint(0, 8, 9, 0, 0);
+        x.addConstraint(0, 1, 2, 0, 0);
+        for (int wrong : new int[] {0, 11, -1, Integer.MIN_VALUE, Integer.MAX_VALUE}) {
+            CHECK.failsAndKeeps(x, "32: count", ARGUMENT, () -> x.setVariables(wrong));
+        }
+        CHECK.equal("32: removed with the same number", x.setVariables(10), 2);
+        CHECK.equal("32: no constraints", x.solutionCount(), 1024);
+        CHECK.equal("32: the relations stay", x.relationCount(), 1);
+        x.addConstraint(0, 8, 9, 0, 0);
+        CHECK.equal("32: removed", x.setVariables(3), 1);
+        CHECK.fails("32: fewer variables", INDEX, () -> x.addConstraint(0, 3, 0, 0, 0));
+    }
+
+    private static void addConstraint() {
+        BooleanConstraints x = with(3);
+        x.addParity(3, 1);
+        x.addRelation(1);
+        for (int i = 0; i < 20; i++) {
+            CHECK.equal("33: number", x.addConstraint(0, i % 3, 1, 2, 0), i);
+        }
+        CHECK.failsAndKeeps(x, "33: a constraint more", STATE, () -> x.addConstraint(0, 0, 1, 2, 0));
+        CHECK.failsAndKeeps(x, "33: variable before room", INDEX, () -> x.addConstraint(0, 0, 1, 3, 0));
+        CHECK.failsAndKeeps(x, "33: relation before room", INDEX, () -> x.addConstraint(2, 0, 1, 2, 0));
+        BooleanConstraints y = with(3);
+        for (int arity = 1; arity <= 4; arity++) {
+            y.addRelation(arity);
+        }
+        for (int arity = 1; arity <= 4; arity++) {
+            for (int position = 0; position < 4; position++) {
+                for (int wrong : new int[] {3, -1, 16, Integer.MIN_VALUE, Integer.MAX_VALUE}) {
+                    int[] v = {0, 1, 2, 0};
+                    v[position] = wrong;
+                    final int relation = arity - 1;
+                    if (position < arity) {
+                        CHECK.failsAndKeeps(y, "33: variable " + position, INDEX,
+                            () -> y.addConstraint(relation, v[0], v[1], v[2], v[3]));
+                    } else {
+                        CHECK.equal("33: ignored", y.addConstraint(relation, v[0], v[1], v[2], v[3]), 0);
+                        y.removeLastConstraint();
+                    }
+                }
+            }
+        }
+        CHECK.failsAndKeeps(y, "33: relation", INDEX, () -> y.addConstraint(4, 0, 0, 0, 0));
+        CHECK.failsAndKeeps(y, "33: relation", INDEX, () -> y.addConstraint(-1, 0, 0, 0, 0));
+    }
+
+    /** Each position goes to its own variable, also to those beyond the sixth and to the same one twice. */
+    private static void addConstraintPositions() {
+        int[][] choices = {{0, 1, 2, 3}, {9, 8, 7, 6}, {3, 9, 0, 5}, {7, 7, 2, 2}, {4, 4, 4, 4}, {6, 0, 6, 9}};
+        for (int[] v : choices) {
+            for (int tuple = 0; tuple < 16; tuple++) {
+                BooleanConstraints x = with(10);
+                add(x, 4, tuple);
+                x.addConstraint(0, v[0], v[1], v[2], v[3]);
+                int index = 0;
+                for (int assignment = 0; assignment < 1024; assignment++) {
+                    int given = (assignment >> v[0] & 1) + 2 * (assignment >> v[1] & 1)
+                        + 4 * (assignment >> v[2] & 1) + 8 * (assignment >> v[3] & 1);
+                    if (given == tuple) {
+                        CHECK.equal("33: solution " + index, x.solution(index), assignment);
+                        index++;
+                    }
+                }
+                CHECK.equal("33: solutions", x.solutionCount(), index);
+            }
+        }
+        BooleanConstraints x = with(2);
+        add(x, 1, 1);
+        x.addConstraint(0, 0, 1, 1, 1);
+        solutionsAre("33: ignored variables", x, 1, 3);
+    }
+
+    private static void removeLastConstraint() {
+        BooleanConstraints x = with(2);
+        add(x, 1, 1);
+        x.addConstraint(0, 0, 0, 0, 0);
+        x.addConstraint(0, 1, 0, 0, 0);
+        CHECK.equal("34: one remains", x.removeLastConstraint(), 1);
+        solutionsAre("34: the last one", x, 1, 3);
+        CHECK.equal("34: none remains", x.removeLastConstraint(), 0);
+        solutionsAre("34: all", x, 0, 1, 2, 3);
+        CHECK.failsAndKeeps(x, "34: none", STATE, x::removeLastConstraint);
+        CHECK.equal("34: the number is free again", x.addConstraint(0, 0, 0, 0, 0), 0);
+    }
+
+    private static void solutionCount() {
+        BooleanConstraints x = with(10);
+        CHECK.equal("35: all", x.solutionCount(), 1024);
+        x.addClause(4, 0);
+        x.addConstraint(0, 0, 3, 6, 9);
+        CHECK.equal("35: a clause", x.solutionCount(), 1024 - 64);
+        x.addTuple(0, 0);
+        CHECK.equal("35: the relation as it is now", x.solutionCount(), 1024);
+        for (int tuple = 0; tuple < 16; tuple++) {
+            x.removeTuple(0, tuple);
+        }
+        CHECK.equal("35: none", x.solutionCount(), 0);
+        BooleanConstraints y = with(5);
+        y.addParity(2, 1);
+        y.addConstraint(0, 4, 4, 0, 0);
+        CHECK.equal("35: a variable is not its opposite", y.solutionCount(), 0);
+    }
+
+    private static void solution() {
+        BooleanConstraints x = with(3);
+        x.addParity(3, 1);
+        x.addConstraint(0, 0, 1, 2, 0);
+        solutionsAre("36: odd", x, 1, 2, 4, 7);
+        for (int wrong : new int[] {-1, 4, 8, Integer.MIN_VALUE, Integer.MAX_VALUE}) {
+            CHECK.failsAndKeeps(x, "36: index", NONE, () -> x.solution(wrong));
+        }
+        BooleanConstraints y = with(10);
+        for (int i = 0; i < 1024; i++) {
+            CHECK.equal("36: all", y.solution(i), i);
+        }
+        CHECK.fails("36: behind all", NONE, () -> y.solution(1024));
+        y.addParity(1, 1);
+        y.addConstraint(0, 9, 0, 0, 0);
+        for (int i = 0; i < 512; i++) {
+            CHECK.equal("36: the upper half", y.solution(i), 512 + i);
+        }
+        CHECK.fails("36: behind the upper half", NONE, () -> y.solution(512));
+        y.addRelation(1);
+        y.addConstraint(1, 0, 0, 0, 0);
+        solutionsAre("36: none", y);
+    }
+
+    private static void isForced() {
+        BooleanConstraints x = with(8);
+        add(x, 1, 1);
+        add(x, 2, 0b01, 0b10);
+        x.addConstraint(0, 7, 0, 0, 0);
+        x.addConstraint(1, 7, 2, 0, 0);
+        for (int variable = 0; variable < 8; variable++) {
+            CHECK.equal("37: 1 at " + variable, x.isForced(variable, 1), variable == 7);
+            CHECK.equal("37: 0 at " + variable, x.isForced(variable, 0), variable == 2);
+        }
+        CHECK.failsAndKeeps(x, "37: variable", INDEX, () -> x.isForced(8, 0));
+        CHECK.failsAndKeeps(x, "37: variable", INDEX, () -> x.isForced(-1, 0));
+        for (int wrong : NO_BITS) {
+            CHECK.failsAndKeeps(x, "37: value", ARGUMENT, () -> x.isForced(0, wrong));
+            CHECK.failsAndKeeps(x, "37: variable before value", INDEX, () -> x.isForced(8, wrong));
+        }
+        x.addConstraint(0, 2, 0, 0, 0);
+        CHECK.isTrue("37: no solutions", x.isForced(5, 0) && x.isForced(5, 1));
+        CHECK.failsAndKeeps(x, "37: value without solutions", ARGUMENT, () -> x.isForced(0, 2));
+    }
+
+    private static void leastSolution() {
+        BooleanConstraints x = with(7);
+        CHECK.equal("38: no relations", x.leastSolution(), 0);
+        x.addClause(2, 0b01);
+        add(x, 1, 1);
+        x.addConstraint(0, 6, 1, 0, 0);
+        x.addConstraint(0, 1, 3, 0, 0);
+        CHECK.equal("38: nothing is forced", x.leastSolution(), 0);
+        x.addConstraint(1, 6, 0, 0, 0);
+        CHECK.equal("38: forced", x.leastSolution(), 0b1001010);
+        x.addRelation(1);
+        x.addConstraint(2, 0, 0, 0, 0);
+        CHECK.failsAndKeeps(x, "38: no solutions", NONE, x::leastSolution);
+        x.addClause(2, 0);
+        CHECK.failsAndKeeps(x, "38: kind before solutions", KIND, x::leastSolution);
+        x.removeLastConstraint();
+        CHECK.failsAndKeeps(x, "38: kind", KIND, x::leastSolution);
+    }
+
+    private static void greatestSolution() {
+        BooleanConstraints x = with(7);
+        CHECK.equal("39: no relations", x.greatestSolution(), 127);
+        x.addClause(2, 0b01);
+        add(x, 1, 0);
+        x.addConstraint(0, 6, 1, 0, 0);
+        x.addConstraint(0, 1, 3, 0, 0);
+        CHECK.equal("39: nothing is forced", x.greatestSolution(), 127);
+        x.addConstraint(1, 3, 0, 0, 0);
+        CHECK.equal("39: forced", x.greatestSolution(), 0b0110101);
+        x.addRelation(1);
+        x.addConstraint(2, 0, 0, 0, 0);
+        CHECK.failsAndKeeps(x, "39: no solutions", NONE, x::greatestSolution);
+        x.addClause(2, 3);
+        CHECK.failsAndKeeps(x, "39: kind before solutions", KIND, x::greatestSolution);
+        x.removeLastConstraint();
+        CHECK.failsAndKeeps(x, "39: kind", KIND, x::greatestSolution);
+    }
+
+    private static void implies() {
+        BooleanConstraints x = with(8);
+        x.addClause(2, 0b11);
+        x.addClause(2, 0b00);
+        x.addConstraint(0, 0, 7, 0, 0);
+        x.addConstraint(1, 7, 6, 0, 0);
+        CHECK.isTrue("40: one step", x.implies(0, 1, 7, 0));
+        CHECK.isTrue("40: two steps", x.implies(0, 1, 6, 1));
+        CHECK.isTrue("40: back", x.implies(6, 0, 0, 0));
+        CHECK.isFalse("40: the other value", x.implies(0, 0, 6, 1));
+        CHECK.isFalse("40: the other way", x.implies(6, 1, 0, 1));
+        CHECK.isTrue("40: itself", x.implies(3, 1, 3, 1) && x.implies(3, 0, 3, 0));
+        CHECK.isFalse("40: its opposite", x.implies(3, 1, 3, 0));
+        CHECK.failsAndKeeps(x, "40: variable", INDEX, () -> x.implies(8, 0, 0, 0));
+        CHECK.failsAndKeeps(x, "40: other", INDEX, () -> x.implies(0, 0, 8, 0));
+        CHECK.failsAndKeeps(x, "40: variable", INDEX, () -> x.implies(-1, 0, 0, 0));
+        CHECK.failsAndKeeps(x, "40: other", INDEX, () -> x.implies(0, 0, -1, 0));
+        for (int wrong : NO_BITS) {
+            CHECK.failsAndKeeps(x, "40: value", ARGUMENT, () -> x.implies(0, wrong, 0, 0));
+            CHECK.failsAndKeeps(x, "40: otherValue", ARGUMENT, () -> x.implies(0, 0, 0, wrong));
+            CHECK.failsAndKeeps(x, "40: other before value", INDEX, () -> x.implies(0, wrong, 8, 0));
+        }
+        x.addConstraint(0, 3, 3, 0, 0);
+        CHECK.isTrue("40: no solution with the value", x.implies(3, 1, 5, 0) && x.implies(3, 1, 5, 1));
+        x.addConstraint(1, 3, 3, 0, 0);
+        CHECK.isTrue("40: no solutions", x.implies(4, 0, 5, 0) && x.implies(4, 0, 5, 1));
+        x.addClause(3, 0);
+        CHECK.failsAndKeeps(x, "40: kind", KIND, () -> x.implies(0, 1, 7, 0));
+        CHECK.failsAndKeeps(x, "40: kind before variable", KIND, () -> x.implies(8, 2, -1, 2));
+    }
+
+    private static void dimension() {
+        for (int count = 1; count <= 10; count++) {
+            BooleanConstraints x = with(count);
+            CHECK.equal("41: all", x.dimension(), count);
+            x.addParity(1, 1);
+            for (int variable = 0; variable < count; variable++) {
+                x.addConstraint(0, variable, 0, 0, 0);
+                CHECK.equal("41: a variable less", x.dimension(), count - 1 - variable);
+            }
+            x.addParity(1, 0);
+            x.addConstraint(1, 0, 0, 0, 0);
+            CHECK.failsAndKeeps(x, "41: no solutions", NONE, x::dimension);
+            x.addClause(2, 0);
+            CHECK.failsAndKeeps(x, "41: kind before solutions", KIND, x::dimension);
+            x.removeLastConstraint();
+            CHECK.failsAndKeeps(x, "41: kind", KIND, x::dimension);
+        }
+    }
+
+    private static void define() {
+        BooleanConstraints x = with(8);
+        x.addParity(2, 1);
+        x.addConstraint(0, 0, 7, 0, 0);
+        x.addConstraint(0, 7, 3, 0, 0);
+        CHECK.equal("42: number", x.define(2, 0, 3, -1, 99), 1);
+        CHECK.equal("42: arity", x.arity(1), 2);
+        CHECK.equal("42: equal", Portrait.tuples(x, 1), 0b1001);
+        CHECK.equal("42: a variable twice", Portrait.tuples(x, x.define(3, 7, 0, 7, 8)), 1 << 0b010 | 1 << 0b101);
+        CHECK.equal("42: free and bound", Portrait.tuples(x, x.define(4, 1, 0, 7, 3)),
+            1 << 0b0100 | 1 << 0b0101 | 1 << 0b1010 | 1 << 0b1011);
+        CHECK.equal("42: arity 1", Portrait.tuples(x, x.define(1, 7, 8, 8, 8)), 0b11);
+        for (int wrong : new int[] {0, 5, -1, 32, Integer.MIN_VALUE, Integer.MAX_VALUE}) {
+            CHECK.failsAndKeeps(x, "42: arity", ARGUMENT, () -> x.define(wrong, 0, 0, 0, 0));
+            CHECK.failsAndKeeps(x, "42: arity before variables", ARGUMENT, () -> x.define(wrong, 8, 8, 8, 8));
+        }
+        for (int arity = 1; arity <= 4; arity++) {
+            for (int position = 0; position < arity; position++) {
+                for (int wrong : new int[] {8, -1, Integer.MIN_VALUE, Integer.MAX_VALUE}) {
+                    int[] v = {0, 0, 0, 0};
+                    v[position] = wrong;
+                    final int asked = arity;
+                    CHECK.failsAndKeeps(x, "42: variable", INDEX, () -> x.define(asked, v[0], v[1], v[2], v[3]));
+                }
+            }
+        }
+        x.addRelation(1);
+        x.addConstraint(5, 1, 0, 0, 0);
+        CHECK.equal("42: no solutions", Portrait.tuples(x, x.define(4, 1, 0, 7, 3)), 0);
+        x.setVariables(2);
+        CHECK.equal("42: no constraints", Portrait.tuples(x, x.define(2, 0, 1, 0, 0)), 0b1111);
+        CHECK.failsAndKeeps(x, "42: a ninth", STATE, () -> x.define(1, 0, 0, 0, 0));
+        CHECK.failsAndKeeps(x, "42: variable before room", INDEX, () -> x.define(1, 2, 0, 0, 0));
+        CHECK.failsAndKeeps(x, "42: arity before room", ARGUMENT, () -> x.define(0, 0, 0, 0, 0));
+        BooleanConstraints y = with(3);
+        CHECK.equal("42: without constraints a variable twice", Portrait.tuples(y, y.define(2, 2, 2, 0, 0)), 0b1001);
+    }
+
+    private static void firstViolated() {
+        BooleanConstraints x = with(7);
+        add(x, 1, 1);
+        x.addClause(2, 0b11);
+        x.addConstraint(0, 6, 0, 0, 0);
+        x.addConstraint(1, 6, 0, 0, 0);
+        x.addConstraint(0, 1, 0, 0, 0);
+        CHECK.equal("43: the first", x.firstViolated(0), 0);
+        CHECK.equal("43: the second", x.firstViolated(0b1000001), 1);
+        CHECK.equal("43: the third", x.firstViolated(0b1000000), 2);
+        CHECK.failsAndKeeps(x, "43: a solution", NONE, () -> x.firstViolated(0b1000010));
+        x.removeTuple(1, 0b01);
+        CHECK.equal("43: the relation as it is now", x.firstViolated(0b1000010), 1);
+        for (int wrong : new int[] {-1, 128, Integer.MIN_VALUE, Integer.MAX_VALUE}) {
+            CHECK.failsAndKeeps(x, "43: assignment", ARGUMENT, () -> x.firstViolated(wrong));
+        }
+        x.setVariables(6);
+        CHECK.failsAndKeeps(x, "43: fewer assignments", ARGUMENT, () -> x.firstViolated(64));
+        CHECK.failsAndKeeps(x, "43: no constraints", NONE, () -> x.firstViolated(63));
+    }
+
+    private static void isRedundant() {
+        BooleanConstraints x = with(9);
+        x.addParity(2, 0);
+        add(x, 1, 1);
+        x.addConstraint(0, 0, 8, 0, 0);
+        x.addConstraint(0, 8, 4, 0, 0);
+        x.addConstraint(0, 0, 4, 0, 0);
+        x.addConstraint(1, 7, 0, 0, 0);
+        for (int constraint = 0; constraint < 4; constraint++) {
+            CHECK.equal("44: " + constraint, x.isRedundant(constraint), constraint < 3);
+        }
+        for (int wrong : new int[] {-1, 4, 20, 32, Integer.MIN_VALUE, Integer.MAX_VALUE}) {
+            CHECK.failsAndKeeps(x, "44: constraint", INDEX, () -> x.isRedundant(wrong));
+        }
+        int nothing = x.addRelation(1);
+        x.addConstraint(nothing, 0, 0, 0, 0);
+        CHECK.isTrue("44: no solutions without it, either", x.isRedundant(3));
+        CHECK.isFalse("44: solutions without it", x.isRedundant(4));
+        x.addConstraint(nothing, 1, 0, 0, 0);
+        CHECK.isTrue("44: another one leaves none", x.isRedundant(4) && x.isRedundant(5));
+        x.setVariables(1);
+        CHECK.failsAndKeeps(x, "44: no constraints", INDEX, () -> x.isRedundant(0));
+        x.addComplement(nothing);
+        x.addConstraint(3, 0, 0, 0, 0);
+        CHECK.isTrue("44: all tuples", x.isRedundant(0));
+    }
+
+    private static void removeRedundant() {
+        BooleanConstraints x = with(9);
+        x.addParity(2, 0);
+        add(x, 1, 1);
+        x.addConstraint(0, 0, 8, 0, 0);
+        x.addConstraint(1, 7, 0, 0, 0);
+        x.addConstraint(0, 8, 4, 0, 0);
+        x.addConstraint(0, 0, 4, 0, 0);
+        x.addConstraint(1, 7, 0, 0, 0);
+        x.addConstraint(1, 5, 0, 0, 0);
+        int before = x.solutionCount();
+        CHECK.equal("45: removed", x.removeRedundant(), 2);
+        CHECK.equal("45: the same solutions", x.solutionCount(), before);
+        // The higher numbers went first, so 0, 1, 2 and 5 are left and are 0 to 3 now.
+        CHECK.equal("45: 0", x.firstViolated(0b010100001), 0);
+        CHECK.equal("45: 1", x.firstViolated(0b000100000), 1);
+        CHECK.equal("45: 2", x.firstViolated(0b110100001), 2);
+        CHECK.equal("45: 5", x.firstViolated(0b010000000), 3);
+        CHECK.equal("45: again", x.removeRedundant(), 0);
+        CHECK.equal("45: left", x.removeLastConstraint(), 3);
+        int nothing = x.addRelation(1);
+        x.addConstraint(nothing, 0, 0, 0, 0);
+        x.addConstraint(0, 2, 3, 0, 0);
+        CHECK.equal("45: one leaves no solutions", x.removeRedundant(), 4);
+        CHECK.equal("45: no solutions still", x.solutionCount(), 0);
+        x.setVariables(2);
+        CHECK.equal("45: no constraints", x.removeRedundant(), 0);
+        for (int i = 0; i < 20; i++) {
+            x.addConstraint(0, 0, 1, 0, 0);
+        }
+        CHECK.equal("45: all but one", x.removeRedundant(), 19);
+        CHECK.equal("45: one is left", x.removeLastConstraint(), 0);
+    }
+}
