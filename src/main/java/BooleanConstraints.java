@@ -712,14 +712,12 @@ public final class BooleanConstraints {
         return (code & argumentCode(arity, argument)) >>> (1 << argument);
     }
 
-    /** An operation of one argument at all positions of a tuple at once. */
-    private static int appliedToOne(int code, int x) {
-        return (has(code, 0) ? ~x : 0) | (has(code, 1) ? x : 0);
-    }
-
     /** An operation of two arguments at all positions of two tuples at once. */
     private static int appliedToTwo(int code, int x, int y) {
-        return (appliedToOne(code, x) & ~y) | (appliedToOne(code >>> 2, x) & y);
+        return (has(code, 0) ? ~x & ~y : 0)
+            | (has(code, 1) ? x & ~y : 0)
+            | (has(code, 2) ? ~x & y : 0)
+            | (has(code, 3) ? x & y : 0);
     }
 
     /**
@@ -734,14 +732,18 @@ public final class BooleanConstraints {
         int seconds = arity >= 2 ? tuples : TUPLE_ZERO_ALONE;
         int thirds = arity >= 3 ? tuples : TUPLE_ZERO_ALONE;
         for (int x = 0; x <= greatest; x++) {
-            for (int y = 0; y <= greatest && has(tuples, x); y++) {
-                if (has(seconds, y)) {
-                    int atZero = appliedToTwo(code, x, y);
-                    int atOne = appliedToTwo(code >>> 4, x, y);
-                    int outside = tuplesChosenBy(thirds, atZero, atOne, greatest) & ~tuples;
-                    if (outside != 0) {
-                        return outside;
-                    }
+            if (!has(tuples, x)) {
+                continue;
+            }
+            for (int y = 0; y <= greatest; y++) {
+                if (!has(seconds, y)) {
+                    continue;
+                }
+                int atZero = appliedToTwo(code, x, y);
+                int atOne = appliedToTwo(code >>> 4, x, y);
+                int outside = tuplesChosenBy(thirds, atZero, atOne, greatest) & ~tuples;
+                if (outside != 0) {
+                    return outside;
                 }
             }
         }
