@@ -714,10 +714,10 @@ public final class BooleanConstraints {
 
     /** An operation of two arguments at all positions of two tuples at once. */
     private static int appliedToTwo(int code, int x, int y) {
-        return (has(code, 0) ? ~x & ~y : 0)
-            | (has(code, 1) ? x & ~y : 0)
-            | (has(code, 2) ? ~x & y : 0)
-            | (has(code, 3) ? x & y : 0);
+        return ((code & 1) != 0 ? ~x & ~y : 0)
+            | ((code & 2) != 0 ? x & ~y : 0)
+            | ((code & 4) != 0 ? ~x & y : 0)
+            | ((code & 8) != 0 ? x & y : 0);
     }
 
     /**
@@ -750,11 +750,14 @@ public final class BooleanConstraints {
         return 0;
     }
 
-    /** The tuples that have, for a tuple z of a set, the values of one tuple where z is 0 and of another elsewhere. */
+    /**
+     * The tuples that have, for a tuple z of a set, the values of one tuple where z is 0 and of another elsewhere. No
+     * loop runs more often than this one, so it calls nothing.
+     */
     private static int tuplesChosenBy(int set, int atZero, int atOne, int greatest) {
         int chosen = 0;
         for (int z = 0; z <= greatest; z++) {
-            if (has(set, z)) {
+            if (((set >>> z) & 1) != 0) {
                 chosen |= 1 << (((atZero & ~z) | (atOne & z)) & greatest);
             }
         }
