@@ -395,7 +395,6 @@ public final class BooleanConstraints {
             throws IllegalArgumentException, IndexOutOfBoundsException, IllegalStateException {
         requireRelationArity(arity);
         requireVariables(arity, v0, v1, v2, v3);
-        requireRoomForRelation();
         return addNew(arity, current.tuplesOfSolutions(arity, packedVariables(arity, v0, v1, v2, v3)));
     }
 

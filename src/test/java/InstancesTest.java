@@ -200,7 +200,13 @@ public final class InstancesTest {
             CHECK.failsAndKeeps(x, "37: value", ARGUMENT, () -> x.isForced(0, wrong));
             CHECK.failsAndKeeps(x, "37: variable before value", INDEX, () -> x.isForced(8, wrong));
         }
+        x.setVariables(1);
+        x.addConstraint(0, 0, 0, 0, 0);
+        CHECK.isTrue("37: the only variable", x.isForced(0, 1) && !x.isForced(0, 0));
+        x.setVariables(8);
         x.addConstraint(0, 2, 0, 0, 0);
+        x.addConstraint(0, 7, 0, 0, 0);
+        x.addConstraint(1, 7, 2, 0, 0);
         CHECK.isTrue("37: no solutions", x.isForced(5, 0) && x.isForced(5, 1));
         CHECK.failsAndKeeps(x, "37: value without solutions", ARGUMENT, () -> x.isForced(0, 2));
     }
@@ -269,6 +275,11 @@ public final class InstancesTest {
         CHECK.isTrue("40: no solution with the value", x.implies(3, 1, 5, 0) && x.implies(3, 1, 5, 1));
         x.addConstraint(1, 3, 3, 0, 0);
         CHECK.isTrue("40: no solutions", x.implies(4, 0, 5, 0) && x.implies(4, 0, 5, 1));
+        x.setVariables(2);
+        x.addConstraint(0, 0, 1, 0, 0);
+        CHECK.isTrue("40: few variables", x.implies(1, 1, 0, 0) && !x.implies(1, 0, 0, 0));
+        x.setVariables(8);
+        x.addConstraint(0, 0, 7, 0, 0);
         x.addClause(3, 0);
         CHECK.failsAndKeeps(x, "40: kind", KIND, () -> x.implies(0, 1, 7, 0));
         CHECK.failsAndKeeps(x, "40: kind before variable", KIND, () -> x.implies(8, 2, -1, 2));

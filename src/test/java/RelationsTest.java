@@ -316,6 +316,8 @@ public final class RelationsTest {
         CHECK.failsAndKeeps(y, "15: arity 1 before room", ARGUMENT, () -> y.addProjection(0, 0));
         CHECK.failsAndKeeps(y, "15: position before room", INDEX, () -> y.addProjection(1, 2));
         CHECK.failsAndKeeps(y, "15: relation before room", INDEX, () -> y.addProjection(-1, 0));
+        BooleanConstraints zero = with(3, 0);
+        CHECK.equal("15: of the tuple 0", Portrait.tuples(zero, zero.addProjection(0, 2)), 1);
         BooleanConstraints z = with(2);
         CHECK.equal("15: of no tuples", Portrait.tuples(z, z.addProjection(0, 1)), 0);
     }
@@ -329,11 +331,13 @@ public final class RelationsTest {
         CHECK.equal("16: the same position", Portrait.tuples(x, x.addExchanged(0, 3, 3)), Portrait.tuples(x, 0));
         CHECK.equal("16: the last position", Portrait.tuples(x, x.addExchanged(0, 3, 1)),
             1 << 0b0001 | 1 << 0b0011 | 1 << 0b0100);
+        x.addParity(4, 0);
+        CHECK.equal("16: of the even tuples", Portrait.tuples(x, x.addExchanged(5, 1, 2)), Portrait.tuples(x, 5));
         CHECK.failsAndKeeps(x, "16: i", INDEX, () -> x.addExchanged(0, 4, 0));
         CHECK.failsAndKeeps(x, "16: j", INDEX, () -> x.addExchanged(0, 0, 4));
         CHECK.failsAndKeeps(x, "16: i", INDEX, () -> x.addExchanged(0, -1, 0));
         CHECK.failsAndKeeps(x, "16: j", INDEX, () -> x.addExchanged(0, 0, -1));
-        CHECK.failsAndKeeps(x, "16: relation", INDEX, () -> x.addExchanged(5, 0, 0));
+        CHECK.failsAndKeeps(x, "16: relation", INDEX, () -> x.addExchanged(7, 0, 0));
         BooleanConstraints y = full();
         CHECK.failsAndKeeps(y, "16: a ninth", STATE, () -> y.addExchanged(0, 0, 0));
         CHECK.failsAndKeeps(y, "16: position before room", INDEX, () -> y.addExchanged(0, 0, 1));

@@ -222,6 +222,8 @@ public final class TextTest {
         writes(x, 0, "100,011");
         x.addParity(1, 1);
         writes(x, 1, "1");
+        x.addTuple(1, 0);
+        writes(x, 1, "0,1");
         x.addRelation(4);
         x.addComplement(2);
         writes(x, 3, "0000,1000,0100,1100,0010,1010,0110,1110,0001,1001,0101,1101,0011,1011,0111,1111");
