@@ -33,14 +33,6 @@ public final class InstancesTest {
         return x;
     }
 
-    private static int add(BooleanConstraints x, int arity, int... tuples) {
-        int relation = x.addRelation(arity);
-        for (int tuple : tuples) {
-            x.addTuple(relation, tuple);
-        }
-        return relation;
-    }
-
     private static void solutionsAre(String what, BooleanConstraints x, int... due) {
         CHECK.equal(what + ": count", x.solutionCount(), due.length);
         for (int i = 0; i < due.length; i++) {
@@ -109,7 +101,7 @@ public final class InstancesTest {
         for (int[] v : choices) {
             for (int tuple = 0; tuple < 16; tuple++) {
                 BooleanConstraints x = with(10);
-                add(x, 4, tuple);
+                Given.relation(x, 4, tuple);
                 x.addConstraint(0, v[0], v[1], v[2], v[3]);
                 int index = 0;
                 for (int assignment = 0; assignment < 1024; assignment++) {
@@ -124,14 +116,14 @@ public final class InstancesTest {
             }
         }
         BooleanConstraints x = with(2);
-        add(x, 1, 1);
+        Given.relation(x, 1, 1);
         x.addConstraint(0, 0, 1, 1, 1);
         solutionsAre("33: ignored variables", x, 1, 3);
     }
 
     private static void removeLastConstraint() {
         BooleanConstraints x = with(2);
-        add(x, 1, 1);
+        Given.relation(x, 1, 1);
         x.addConstraint(0, 0, 0, 0, 0);
         x.addConstraint(0, 1, 0, 0, 0);
         CHECK.equal("34: one remains", x.removeLastConstraint(), 1);
@@ -186,8 +178,8 @@ public final class InstancesTest {
 
     private static void isForced() {
         BooleanConstraints x = with(8);
-        add(x, 1, 1);
-        add(x, 2, 0b01, 0b10);
+        Given.relation(x, 1, 1);
+        Given.relation(x, 2, 0b01, 0b10);
         x.addConstraint(0, 7, 0, 0, 0);
         x.addConstraint(1, 7, 2, 0, 0);
         for (int variable = 0; variable < 8; variable++) {
@@ -215,7 +207,7 @@ public final class InstancesTest {
         BooleanConstraints x = with(7);
         CHECK.equal("38: no relations", x.leastSolution(), 0);
         x.addClause(2, 0b01);
-        add(x, 1, 1);
+        Given.relation(x, 1, 1);
         x.addConstraint(0, 6, 1, 0, 0);
         x.addConstraint(0, 1, 3, 0, 0);
         CHECK.equal("38: nothing is forced", x.leastSolution(), 0);
@@ -234,7 +226,7 @@ public final class InstancesTest {
         BooleanConstraints x = with(7);
         CHECK.equal("39: no relations", x.greatestSolution(), 127);
         x.addClause(2, 0b01);
-        add(x, 1, 0);
+        Given.relation(x, 1, 0);
         x.addConstraint(0, 6, 1, 0, 0);
         x.addConstraint(0, 1, 3, 0, 0);
         CHECK.equal("39: nothing is forced", x.greatestSolution(), 127);
@@ -344,7 +336,7 @@ public final class InstancesTest {
 
     private static void firstViolated() {
         BooleanConstraints x = with(7);
-        add(x, 1, 1);
+        Given.relation(x, 1, 1);
         x.addClause(2, 0b11);
         x.addConstraint(0, 6, 0, 0, 0);
         x.addConstraint(1, 6, 0, 0, 0);
@@ -366,7 +358,7 @@ public final class InstancesTest {
     private static void isRedundant() {
         BooleanConstraints x = with(9);
         x.addParity(2, 0);
-        add(x, 1, 1);
+        Given.relation(x, 1, 1);
         x.addConstraint(0, 0, 8, 0, 0);
         x.addConstraint(0, 8, 4, 0, 0);
         x.addConstraint(0, 0, 4, 0, 0);
@@ -393,7 +385,7 @@ public final class InstancesTest {
     private static void removeRedundant() {
         BooleanConstraints x = with(9);
         x.addParity(2, 0);
-        add(x, 1, 1);
+        Given.relation(x, 1, 1);
         x.addConstraint(0, 0, 8, 0, 0);
         x.addConstraint(1, 7, 0, 0, 0);
         x.addConstraint(0, 8, 4, 0, 0);

@@ -13,17 +13,6 @@ public final class KindsTest {
         CHECK.end();
     }
 
-    private static BooleanConstraints with(int arity, int set) {
-        BooleanConstraints x = new BooleanConstraints();
-        x.addRelation(arity);
-        for (int tuple = 0; tuple < 1 << arity; tuple++) {
-            if ((set >> tuple & 1) != 0) {
-                x.addTuple(0, tuple);
-            }
-        }
-        return x;
-    }
-
     /** Each kind told by the values of its operation on whole tuples, not by a code. */
     private static int valueOfKind(int kind, int a, int b, int c, int ones) {
         switch (kind) {
@@ -52,18 +41,18 @@ public final class KindsTest {
 
     private static void relationHasKind() {
         for (int set = 0; set < 256; set++) {
-            BooleanConstraints x = with(3, set);
+            BooleanConstraints x = Given.objectOfSet(3, set);
             for (int kind = 0; kind < 6; kind++) {
                 CHECK.equal("29: set " + set + " kind " + kind, x.relationHasKind(0, kind), hasKind(3, set, kind));
             }
         }
         for (int set = 0; set < 65536; set += 251) {
-            BooleanConstraints x = with(4, set);
+            BooleanConstraints x = Given.objectOfSet(4, set);
             for (int kind = 0; kind < 6; kind++) {
                 CHECK.equal("29: set " + set + " kind " + kind, x.relationHasKind(0, kind), hasKind(4, set, kind));
             }
         }
-        BooleanConstraints x = with(2, 0b0110);
+        BooleanConstraints x = Given.objectOfSet(2, 0b0110);
         x.addClause(1, 1);
         CHECK.isTrue("29: the relation alone counts", x.relationHasKind(1, 0));
         CHECK.isFalse("29: the relation alone counts", x.relationHasKind(0, 0));
@@ -100,16 +89,16 @@ public final class KindsTest {
 
     private static void lowestKind() {
         CHECK.equal("31: no relations", new BooleanConstraints().lowestKind(), 0);
-        CHECK.equal("31: constant 0", with(2, 0b0001).lowestKind(), 0);
-        CHECK.equal("31: constant 1", with(2, 0b1110).lowestKind(), 1);
+        CHECK.equal("31: constant 0", Given.objectOfSet(2, 0b0001).lowestKind(), 0);
+        CHECK.equal("31: constant 1", Given.objectOfSet(2, 0b1110).lowestKind(), 1);
         CHECK.equal("31: minimum", withUnits(0b00010111, 3).lowestKind(), 2);
         CHECK.equal("31: maximum", withUnits(0b11101000, 3).lowestKind(), 3);
         CHECK.equal("31: minimum before maximum", withUnits(0b1101, 2).lowestKind(), 2);
-        CHECK.equal("31: majority", with(2, 0b0110).lowestKind(), 4);
-        BooleanConstraints sum = with(3, 0b10010110);
+        CHECK.equal("31: majority", Given.objectOfSet(2, 0b0110).lowestKind(), 4);
+        BooleanConstraints sum = Given.objectOfSet(3, 0b10010110);
         sum.addParity(2, 1);
         CHECK.equal("31: sum", sum.lowestKind(), 5);
-        BooleanConstraints hard = with(3, 1 << 1 | 1 << 2 | 1 << 4);
+        BooleanConstraints hard = Given.objectOfSet(3, 1 << 1 | 1 << 2 | 1 << 4);
         CHECK.failsAndKeeps(hard, "31: none", NONE, hard::lowestKind);
         hard.clear();
         CHECK.equal("31: easy again", hard.lowestKind(), 0);
@@ -117,7 +106,7 @@ public final class KindsTest {
 
     /** A relation beside the two of arity 1 that keep both constants away. */
     private static BooleanConstraints withUnits(int set, int arity) {
-        BooleanConstraints x = with(arity, set);
+        BooleanConstraints x = Given.objectOfSet(arity, set);
         x.addClause(1, 0);
         x.addClause(1, 1);
         return x;

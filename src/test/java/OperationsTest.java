@@ -33,15 +33,6 @@ public final class OperationsTest {
         return 1 << (1 << arity);
     }
 
-    private static BooleanConstraints with(int arity, int... tuples) {
-        BooleanConstraints x = new BooleanConstraints();
-        int relation = x.addRelation(arity);
-        for (int tuple : tuples) {
-            x.addTuple(relation, tuple);
-        }
-        return x;
-    }
-
     private static void refusesNoOperations(BooleanConstraints x, String what, OperationCall call) {
         for (int[] wrong : NO_OPERATIONS) {
             CHECK.failsAndKeeps(x, what + " for " + wrong[0] + " and " + wrong[1], ARGUMENT,
@@ -70,7 +61,7 @@ public final class OperationsTest {
     }
 
     private static void preserves() {
-        BooleanConstraints x = with(2, 0b01, 0b10);
+        BooleanConstraints x = Given.object(2, 0b01, 0b10);
         CHECK.isFalse("18: minimum", x.preserves(2, 8, 0));
         CHECK.isFalse("18: maximum", x.preserves(2, 14, 0));
         CHECK.isTrue("18: the opposite", x.preserves(1, 1, 0));
@@ -119,11 +110,11 @@ public final class OperationsTest {
         CHECK.equal("20: all of arity 1", x.polymorphismCount(1), 4);
         CHECK.equal("20: all of arity 2", x.polymorphismCount(2), 16);
         CHECK.equal("20: all of arity 3", x.polymorphismCount(3), 256);
-        BooleanConstraints order = with(2, 0b00, 0b10, 0b11);
+        BooleanConstraints order = Given.object(2, 0b00, 0b10, 0b11);
         CHECK.equal("20: monotone of arity 1", order.polymorphismCount(1), 3);
         CHECK.equal("20: monotone of arity 2", order.polymorphismCount(2), 6);
         CHECK.equal("20: monotone of arity 3", order.polymorphismCount(3), 20);
-        BooleanConstraints one = with(3, 1, 2, 4);
+        BooleanConstraints one = Given.object(3, 1, 2, 4);
         CHECK.equal("20: the projections alone, 1", one.polymorphismCount(1), 1);
         CHECK.equal("20: the projections alone, 2", one.polymorphismCount(2), 2);
         CHECK.equal("20: the projections alone, 3", one.polymorphismCount(3), 3);
@@ -138,7 +129,7 @@ public final class OperationsTest {
             CHECK.equal("21: all", x.polymorphism(3, code), code);
         }
         CHECK.fails("21: behind the last", NONE, () -> x.polymorphism(3, 256));
-        BooleanConstraints order = with(2, 0b00, 0b10, 0b11);
+        BooleanConstraints order = Given.object(2, 0b00, 0b10, 0b11);
         int[] monotone = {0, 8, 10, 12, 14, 15};
         for (int i = 0; i < 6; i++) {
             CHECK.equal("21: monotone", order.polymorphism(2, i), monotone[i]);
@@ -209,16 +200,16 @@ public final class OperationsTest {
     }
 
     private static void close() {
-        BooleanConstraints x = with(3, 0b011, 0b101, 0b110);
+        BooleanConstraints x = Given.object(3, 0b011, 0b101, 0b110);
         CHECK.equal("25: minimum", x.close(0, 2, 8), 7);
         CHECK.equal("25: tuples", Portrait.tuples(x, 0), 0x7F);
         CHECK.equal("25: again", x.close(0, 2, 8), 7);
-        BooleanConstraints y = with(4, 0b0001, 0b0010, 0b0100, 0b1000);
+        BooleanConstraints y = Given.object(4, 0b0001, 0b0010, 0b0100, 0b1000);
         CHECK.equal("25: sum of three", y.close(0, 3, 150), 8);
         CHECK.equal("25: odd tuples", Portrait.tuples(y, 0), 1 << 1 | 1 << 2 | 1 << 4 | 1 << 7 | 1 << 8 | 1 << 11
             | 1 << 13 | 1 << 14);
         CHECK.equal("25: sum of two", y.close(0, 2, 6), 16);
-        BooleanConstraints z = with(2);
+        BooleanConstraints z = Given.object(2);
         CHECK.equal("25: no tuples", z.close(0, 1, 3), 0);
         CHECK.equal("25: no tuples", z.close(0, 3, 255), 0);
         z.addTuple(0, 1);
@@ -239,28 +230,18 @@ public final class OperationsTest {
         for (int code = 0; code < 256; code += 3) {
             boolean[] preserved = new boolean[256];
             for (int set = 0; set < 256; set++) {
-                preserved[set] = relationOf(set).preserves(3, code, 0);
+                preserved[set] = Given.objectOfSet(3, set).preserves(3, code, 0);
             }
             for (int set = 0; set < 256; set += 7) {
                 int due = 255;
                 for (int upper = 0; upper < 256; upper++) {
                     due &= preserved[upper] && (set & ~upper) == 0 ? upper : 255;
                 }
-                BooleanConstraints x = relationOf(set);
+                BooleanConstraints x = Given.objectOfSet(3, set);
                 CHECK.equal("25: count for " + code, x.close(0, 3, code), Integer.bitCount(due));
                 CHECK.equal("25: closure for " + code, Portrait.tuples(x, 0), due);
             }
         }
-    }
-
-    private static BooleanConstraints relationOf(int set) {
-        BooleanConstraints x = with(3);
-        for (int tuple = 0; tuple < 8; tuple++) {
-            if ((set >> tuple & 1) != 0) {
-                x.addTuple(0, tuple);
-            }
-        }
-        return x;
     }
 
     private static void dual() {

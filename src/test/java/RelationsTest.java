@@ -34,21 +34,6 @@ public final class RelationsTest {
         return x;
     }
 
-    /** An object with one relation that has given tuples. */
-    private static BooleanConstraints with(int arity, int... tuples) {
-        BooleanConstraints x = new BooleanConstraints();
-        add(x, arity, tuples);
-        return x;
-    }
-
-    private static int add(BooleanConstraints x, int arity, int... tuples) {
-        int relation = x.addRelation(arity);
-        for (int tuple : tuples) {
-            x.addTuple(relation, tuple);
-        }
-        return relation;
-    }
-
     private static void newObject() {
         BooleanConstraints x = new BooleanConstraints();
         CHECK.equal("1: relationCount", x.relationCount(), 0);
@@ -173,7 +158,7 @@ public final class RelationsTest {
     }
 
     private static void contains() {
-        BooleanConstraints x = with(3, 2, 7);
+        BooleanConstraints x = Given.object(3, 2, 7);
         for (int tuple = 0; tuple < 8; tuple++) {
             CHECK.equal("7: tuple " + tuple, x.contains(0, tuple), tuple == 2 || tuple == 7);
         }
@@ -219,12 +204,12 @@ public final class RelationsTest {
     }
 
     private static void areEqual() {
-        BooleanConstraints x = with(2, 0, 1);
-        add(x, 2, 1, 0);
-        add(x, 3, 0, 1);
-        add(x, 2, 0, 2);
-        add(x, 3);
-        add(x, 2);
+        BooleanConstraints x = Given.object(2, 0, 1);
+        Given.relation(x, 2, 1, 0);
+        Given.relation(x, 3, 0, 1);
+        Given.relation(x, 2, 0, 2);
+        Given.relation(x, 3);
+        Given.relation(x, 2);
         CHECK.isTrue("11: itself", x.areEqual(0, 0));
         CHECK.isTrue("11: the same tuples", x.areEqual(0, 1));
         CHECK.isFalse("11: another arity", x.areEqual(0, 2));
@@ -239,7 +224,7 @@ public final class RelationsTest {
     }
 
     private static void clear() {
-        BooleanConstraints x = with(2, 1, 2);
+        BooleanConstraints x = Given.object(2, 1, 2);
         x.addClause(3, 0);
         x.setVariables(4);
         x.addConstraint(0, 0, 1, 0, 0);
@@ -261,7 +246,7 @@ public final class RelationsTest {
     }
 
     private static void addComplement() {
-        BooleanConstraints x = with(3, 0, 5);
+        BooleanConstraints x = Given.object(3, 0, 5);
         CHECK.equal("13: number", x.addComplement(0), 1);
         CHECK.equal("13: arity", x.arity(1), 3);
         CHECK.equal("13: tuples", Portrait.tuples(x, 1), 0xFF ^ 0x21);
@@ -277,9 +262,9 @@ public final class RelationsTest {
     }
 
     private static void addIntersection() {
-        BooleanConstraints x = with(2, 0, 1, 3);
-        add(x, 2, 1, 2, 3);
-        add(x, 3, 1, 2, 3);
+        BooleanConstraints x = Given.object(2, 0, 1, 3);
+        Given.relation(x, 2, 1, 2, 3);
+        Given.relation(x, 3, 1, 2, 3);
         CHECK.equal("14: number", x.addIntersection(0, 1), 3);
         CHECK.equal("14: arity", x.arity(3), 2);
         CHECK.equal("14: tuples", Portrait.tuples(x, 3), 0xA);
@@ -295,7 +280,7 @@ public final class RelationsTest {
     }
 
     private static void addProjection() {
-        BooleanConstraints x = with(4, 0b1010, 0b0010, 0b0111);
+        BooleanConstraints x = Given.object(4, 0b1010, 0b0010, 0b0111);
         int[] due = {1 << 0b101 | 1 << 0b001 | 1 << 0b011, 1 << 0b100 | 1 << 0b000 | 1 << 0b011,
             1 << 0b110 | 1 << 0b010 | 1 << 0b011, 1 << 0b010 | 1 << 0b111};
         for (int position = 0; position < 4; position++) {
@@ -316,14 +301,14 @@ public final class RelationsTest {
         CHECK.failsAndKeeps(y, "15: arity 1 before room", ARGUMENT, () -> y.addProjection(0, 0));
         CHECK.failsAndKeeps(y, "15: position before room", INDEX, () -> y.addProjection(1, 2));
         CHECK.failsAndKeeps(y, "15: relation before room", INDEX, () -> y.addProjection(-1, 0));
-        BooleanConstraints zero = with(3, 0);
+        BooleanConstraints zero = Given.object(3, 0);
         CHECK.equal("15: of the tuple 0", Portrait.tuples(zero, zero.addProjection(0, 2)), 1);
-        BooleanConstraints z = with(2);
+        BooleanConstraints z = Given.object(2);
         CHECK.equal("15: of no tuples", Portrait.tuples(z, z.addProjection(0, 1)), 0);
     }
 
     private static void addExchanged() {
-        BooleanConstraints x = with(4, 0b0001, 0b1001, 0b0100);
+        BooleanConstraints x = Given.object(4, 0b0001, 0b1001, 0b0100);
         CHECK.equal("16: number", x.addExchanged(0, 0, 2), 1);
         CHECK.equal("16: arity", x.arity(1), 4);
         CHECK.equal("16: tuples", Portrait.tuples(x, 1), 1 << 0b0100 | 1 << 0b1100 | 1 << 0b0001);

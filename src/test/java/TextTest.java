@@ -239,13 +239,7 @@ public final class TextTest {
     }
 
     private static void readsWhatItWrites(int set) {
-        BooleanConstraints x = new BooleanConstraints();
-        x.addRelation(2);
-        for (int tuple = 0; tuple < 4; tuple++) {
-            if ((set >> tuple & 1) != 0) {
-                x.addTuple(0, tuple);
-            }
-        }
+        BooleanConstraints x = Given.objectOfSet(2, set);
         x.write(0);
         type(x, Portrait.output(x));
         x.parse();
