@@ -21,6 +21,10 @@ final class Check {
         }
     }
 
+    int count() {
+        return held + broken;
+    }
+
     void isTrue(String what, boolean got) {
         equal(what, got, true);
     }

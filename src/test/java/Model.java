@@ -102,6 +102,16 @@ final class Model {
         return tuple / (1 << position) % 2;
     }
 
+    // ---- what the document's face does not tell, for tests that choose their arguments
+
+    int variableCount() {
+        return variables;
+    }
+
+    int constraintCount() {
+        return constraints.size();
+    }
+
     // ---- relations
 
     int addRelation(int arity) {

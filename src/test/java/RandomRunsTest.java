@@ -1,10 +1,8 @@
-import java.lang.reflect.InvocationTargetException;
-import java.lang.reflect.Method;
 import java.util.ArrayList;
 import java.util.List;
 import java.util.Random;
 
-/** All promises at once: the same calls, chosen by chance from fixed seeds, to an object and to the model. */
+/** All promises at once: the same calls, chosen by chance from fixed seeds, to an object and to the pair.model. */
 public final class RandomRunsTest {
     private static final int RUNS = 700;
     private static final int CALLS = 512;
@@ -32,9 +30,8 @@ public final class RandomRunsTest {
     private static final Check CHECK = new Check("RandomRunsTest");
 
     private final Random random;
-    private final BooleanConstraints object = new BooleanConstraints();
-    private final Model model = new Model();
-    private final StringBuilder story = new StringBuilder();
+    private final Pair pair = new Pair();
+    private boolean agrees = true;
     private int arity = 1;
 
     private RandomRunsTest(int seed) {
@@ -42,88 +39,65 @@ public final class RandomRunsTest {
     }
 
     public static void main(String[] args) {
-        int runs = args.length > 1 ? Integer.parseInt(args[1]) : RUNS;
+        int runs = args.length > 2 ? Integer.parseInt(args[2]) : RUNS;
         List<String> choices = new ArrayList<>();
         for (String call : CALLS_TO_MAKE) {
             int often = Integer.parseInt(call.substring(0, call.indexOf(' ')));
             for (int i = 0; i < often; i++) {
-                choices.add(call.substring(call.indexOf(' ') + 1));
+                choices.add(call);
             }
         }
         for (int seed = 0; seed < runs; seed++) {
             RandomRunsTest run = new RandomRunsTest(seed);
-            boolean agree = run.agrees(choices);
-            CHECK.isTrue("seed " + seed, agree);
-            if (!agree) {
-                System.out.println(run.story);
+            run.go(choices, CALLS_TO_MAKE[seed % CALLS_TO_MAKE.length]);
+            CHECK.isTrue("seed " + seed, run.agrees);
+            if (!run.agrees) {
+                System.out.println(run.pair.story());
                 break;
             }
         }
         CHECK.end();
     }
 
-    private boolean agrees(List<String> choices) {
-        int made = 0;
-        while (made < CALLS) {
+    /** A run of just 512 calls; the last one is told, so that each method has its turn there. */
+    private void go(List<String> choices, String last) {
+        while (agrees && pair.calls() < CALLS - 1) {
             if (random.nextInt(60) == 0) {
-                made += type();
-            }
-            String[] parts = choices.get(random.nextInt(choices.size())).split(" ");
-            Object[] arguments = new Object[parts.length - 1];
-            for (int i = 0; i < arguments.length; i++) {
-                arguments[i] = argument(parts[i + 1].charAt(0));
-            }
-            made++;
-            if (!sameAnswer(parts[0], arguments)) {
-                return false;
+                type();
+            } else {
+                callAsTold(choices.get(random.nextInt(choices.size())));
             }
         }
-        return true;
+        callAsTold(last);
+    }
+
+    private void callAsTold(String told) {
+        String[] parts = told.split(" ");
+        Object[] arguments = new Object[parts.length - 2];
+        for (int i = 0; i < arguments.length; i++) {
+            arguments[i] = argument(parts[i + 2].charAt(0));
+        }
+        agrees = agrees && pair.isSame(parts[1], arguments);
     }
 
     /** A text that is right or nearly so, which single characters by chance hardly ever are. */
-    private int type() {
+    private void type() {
         int width = 1 + random.nextInt(4);
         int tuples = 1 + random.nextInt(6);
-        int made = 0;
+        StringBuilder text = new StringBuilder();
         for (int tuple = 0; tuple < tuples; tuple++) {
             int digits = random.nextInt(12) == 0 ? random.nextInt(6) : width;
             for (int i = 0; i < digits; i++) {
-                made += sameAnswer("append", random.nextBoolean() ? '1' : '0') ? 1 : CALLS;
+                text.append(random.nextBoolean() ? '1' : '0');
             }
-            if (tuple < tuples - 1) {
-                made += sameAnswer("append", ',') ? 1 : CALLS;
+            text.append(tuple < tuples - 1 ? "," : "");
+        }
+        if (pair.calls() + text.length() + 2 < CALLS) {
+            for (int i = 0; i < text.length(); i++) {
+                agrees = agrees && pair.isSame("append", text.charAt(i));
             }
+            agrees = agrees && pair.isSame("parse") && pair.isSame("errorPosition");
         }
-        made += sameAnswer("parse") ? 1 : CALLS;
-        made += sameAnswer("errorPosition") ? 1 : CALLS;
-        return made + 2;
-    }
-
-    private boolean sameAnswer(String name, Object... arguments) {
-        String due = answer(model, name, arguments);
-        String got = answer(object, name, arguments);
-        story.append(name).append(java.util.Arrays.toString(arguments)).append(" answered ").append(got);
-        story.append(due.equals(got) ? "" : ", due is " + due).append('\n');
-        if (!due.equals(got)) {
-            CHECK.equal(name, got, due);
-        }
-        return due.equals(got);
-    }
-
-    private static String answer(Object whom, String name, Object[] arguments) {
-        for (Method method : whom.getClass().getDeclaredMethods()) {
-            if (method.getName().equals(name) && method.getParameterCount() == arguments.length) {
-                try {
-                    return String.valueOf(method.invoke(whom, arguments));
-                } catch (InvocationTargetException e) {
-                    return "throws " + e.getCause().getClass().getName();
-                } catch (IllegalAccessException e) {
-                    return "may not be called";
-                }
-            }
-        }
-        return "has no such method";
     }
 
     private Object argument(char kind) {
@@ -146,7 +120,7 @@ public final class RandomRunsTest {
     }
 
     private int place(char kind) {
-        int relations = model.relationCount();
+        int relations = pair.model.relationCount();
         switch (kind) {
             case 'R': return number(0, Math.max(0, relations - 1));
             case 'T': return number(0, (1 << 1 + random.nextInt(4)) - 1);
@@ -157,7 +131,7 @@ public final class RandomRunsTest {
             case 'D': return number(0, 5);
             case 'N': return number(1, random.nextInt(3) == 0 ? 10 : 5);
             case 'V': return random.nextInt(3) == 0 ? number(0, 9) : number(0, 2);
-            case 'S': return number(0, Math.max(0, model.solutionCount() - 1));
+            case 'S': return number(0, Math.max(0, pair.model.solutionCount() - 1));
             case 'M': return number(0, 4);
             case 'X': return number(0, random.nextInt(3) == 0 ? 1023 : 7);
             case 'Q': return number(0, random.nextInt(20));
