@@ -376,8 +376,12 @@ final class DescriptionSentences extends Sentences {
     }
 
     /** The arity and the set of tuples of the relation that a text describes, or the error position alone. */
-    static String parsed(String text) {
-        BooleanConstraints x = TextSentences.typed(text);
+    private static String parsed(String text) {
+        return parsed(TextSentences.typed(text));
+    }
+
+    /** The same of the input of an object without relations. */
+    static String parsed(BooleanConstraints x) {
         String answer = Check.outcome(x::parse);
         if (answer.equals("throws IllegalArgumentException")) {
             return String.valueOf(x.errorPosition());

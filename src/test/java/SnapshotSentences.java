@@ -43,11 +43,25 @@ final class SnapshotSentences extends Sentences {
         return x.addConstraint(1, 0, 0, 0, 0);
     }
 
+    /** Eight other relations, another number of variables, and twenty other constraints. */
+    private static Object changeTheMost(BooleanConstraints x) {
+        x.clear();
+        x.setVariables(4);
+        for (int relation = 0; relation < 8; relation++) {
+            x.addParity(4 - relation % 4, relation % 2);
+        }
+        for (int i = 0; i < 20; i++) {
+            x.addConstraint((i + 3) % 8, 3 - i % 4, 0, i % 3, 1);
+        }
+        return null;
+    }
+
     private void saveSnapshot() {
         promise(54);
         says("Saves the relations, the number of variables and the constraints.", () -> {
             for (Whole.Start start : new Whole.Start[] {Given.NEW, Given.SOME, Given.FULL}) {
                 restores(start, SnapshotSentences::changeAll);
+                restores(start, SnapshotSentences::changeTheMost);
                 changesOnly(start, BooleanConstraints::saveSnapshot, "snapshot");
             }
             restores(Given.SOME, SnapshotSentences::changeALittle);
@@ -79,12 +93,23 @@ final class SnapshotSentences extends Sentences {
         });
     }
 
+    /** The snapshot of a full object comes back behind changes of all its parts. */
+    private void mostIsRestored() {
+        java.util.Map<String, String> due = Whole.of(Given.FULL, null);
+        java.util.Map<String, String> got = Whole.of(Given.FULL, x -> {
+            changeTheMost(x);
+            return x.restoreSnapshot();
+        });
+        equal(got, due);
+    }
+
     private void restoreSnapshot() {
         promise(55);
         says("Restores the relations, the number of variables and the constraints from the snapshot.", () -> {
             for (Whole.Start start : new Whole.Start[] {Given.SOME, Given.FULL}) {
                 changesOnly(start, BooleanConstraints::restoreSnapshot, "relations", "instance");
             }
+            mostIsRestored();
             java.util.Map<String, String> some = Whole.of(Given.SOME, BooleanConstraints::restoreSnapshot);
             equal(some.get("relations"), " 1:2 2:6 3:223");
             equal(some.get("instance variables"), "3");

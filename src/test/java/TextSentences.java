@@ -128,6 +128,9 @@ final class TextSentences extends Sentences {
                 Check.outcome(y::parse);
                 equal(y.append('0'), 1);
             }
+            nothingIsLeftOf("1".repeat(60));
+            nothingIsLeftOf(",".repeat(60));
+            nothingIsLeftOf("1111,".repeat(11) + "1111");
         });
         says("Returns the number of the relation.", () -> {
             BooleanConstraints x = new BooleanConstraints();
@@ -176,6 +179,19 @@ final class TextSentences extends Sentences {
                 changesOnly(eight, BooleanConstraints::parse, "input");
             }
         });
+    }
+
+    /** What stood behind the end of a shorter text before does not belong to it. */
+    private void nothingIsLeftOf(String longer) {
+        String[] texts = {"0", "00", "000", "0000", "00,00", "", "0,", "000,00"};
+        String[] due = {"1:1", "2:1", "3:1", "4:1", "2:1", "0", "2", "6"};
+        for (int i = 0; i < texts.length; i++) {
+            BooleanConstraints x = typed(longer);
+            Check.outcome(x::parse);
+            x.clear();
+            Given.type(x, texts[i]);
+            equal(DescriptionSentences.parsed(x), due[i]);
+        }
     }
 
     private void errorPosition() {

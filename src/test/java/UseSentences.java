@@ -47,32 +47,33 @@ final class UseSentences extends Sentences {
         return pair;
     }
 
+    /** One method again and again, and then each method once, to the 512th call. */
     private void oneMethodAgainAndAgain() {
         for (String call : EACH_METHOD) {
             Pair pair = made();
             boolean same = true;
-            while (same && pair.calls() < CALLS) {
+            while (same && pair.calls() < CALLS - EACH_METHOD.length) {
                 same = pair.isSameAsWritten(call);
             }
-            isTrue(same);
-            if (!same) {
-                System.out.println(pair.story());
-            }
+            inTurn(pair, 0, same);
         }
     }
 
-    /** Each method is the first in one of the runs, and so another one is the 512th call of each. */
+    /** Each method is the first in one of the runs, and so each is the 512th call of one. */
     private void allMethodsInTurn() {
         for (int first = 0; first < EACH_METHOD.length; first++) {
-            Pair pair = made();
-            boolean same = true;
-            for (int i = first; same && pair.calls() < CALLS; i++) {
-                same = pair.isSameAsWritten(EACH_METHOD[i % EACH_METHOD.length]);
-            }
-            isTrue(same);
-            if (!same) {
-                System.out.println(pair.story());
-            }
+            inTurn(made(), first, true);
+        }
+    }
+
+    private void inTurn(Pair pair, int first, boolean sameSoFar) {
+        boolean same = sameSoFar;
+        for (int i = first; same && pair.calls() < CALLS; i++) {
+            same = pair.isSameAsWritten(EACH_METHOD[i % EACH_METHOD.length]);
+        }
+        isTrue(same);
+        if (!same) {
+            System.out.println(pair.story());
         }
     }
 
