@@ -22,15 +22,16 @@ public final class BoundaryValuesTest {
      * place in the output, L a slot, E a length, J an element, F a flag, H a character.
      */
     private static final String[] QUESTIONS = {
-        "contains R T", "tupleCount R", "arity R", "relationCount", "areEqual R R", "apply K C B B B", "preserves K C R",
-        "isPolymorphism K C", "polymorphismCount K", "polymorphism K M", "isIdempotent K C", "isMonotone K C",
-        "projectedArgument K C", "dual K C", "dependsOn K C G", "compose K C I", "relationHasKind R D", "hasKind D",
-        "lowestKind", "solutionCount", "solution S", "isForced V B", "leastSolution", "greatestSolution",
-        "implies V B V B", "dimension", "firstViolated X", "isRedundant Q", "errorPosition", "outputAt O"
+        "contains R T", "tupleCount R", "arity R", "relationCount", "areEqual R R", "apply K C B B B",
+        "preserves K C R", "isPolymorphism K C", "polymorphismCount K", "polymorphism K M", "isIdempotent K C",
+        "isMonotone K C", "projectedArgument K C", "dual K C", "dependsOn K C G", "compose K C I",
+        "relationHasKind R D", "hasKind D", "lowestKind", "solutionCount", "solution S", "isForced V B",
+        "leastSolution", "greatestSolution", "implies V B V B", "dimension", "firstViolated X", "isRedundant Q",
+        "errorPosition", "outputAt O"
     };
     private static final String[] CHANGES = {
-        "addRelation A", "addClause A T", "addParity A B", "addTuple R T", "removeTuple R T", "clear", "addComplement R",
-        "addIntersection R R", "addProjection R P", "addExchanged R P P", "close R K C", "setVariables N",
+        "addRelation A", "addClause A T", "addParity A B", "addTuple R T", "removeTuple R T", "clear",
+        "addComplement R", "addIntersection R R", "addProjection R P", "addExchanged R P P", "close R K C", "setVariables N",
         "addConstraint R V V V V", "removeLastConstraint", "define A V V V V", "removeRedundant", "append H", "parse",
         "write R", "storeFlags L E R", "setFlag L J F", "takeFlags L R", "saveSnapshot", "restoreSnapshot"
     };
@@ -66,7 +67,8 @@ public final class BoundaryValuesTest {
         "relationCount", "solutionCount", "solution 0", "firstViolated 0", "firstViolated 1", "isRedundant 0",
         "isRedundant 1", "isRedundant 19", "isForced 0 0", "isForced 9 0", "outputAt 0", "outputAt 78", "errorPosition",
         "setFlag 0 0 true", "setFlag 1 0 true", "setFlag 2 0 true", "setFlag 0 15 false", "setFlag 2 14 false",
-        "append 1", "parse", "errorPosition", "removeLastConstraint", "restoreSnapshot", "relationCount", "solutionCount"
+        "append 1", "parse", "errorPosition", "removeLastConstraint", "restoreSnapshot", "relationCount",
+        "solutionCount"
     };
 
     private final String script;

@@ -18,8 +18,8 @@ final class UseSentences extends Sentences {
         "clear"
     };
     private static final String[] SETUP = {
-        "setVariables 3", "addParity 2 1", "addParity 3 0", "addConstraint 0 0 1 0 0", "addConstraint 1 0 1 2 0", "parse",
-        "append 0", "write 1", "storeFlags 1 8 1", "saveSnapshot"
+        "setVariables 3", "addParity 2 1", "addParity 3 0", "addConstraint 0 0 1 0 0", "addConstraint 1 0 1 2 0",
+        "parse", "append 0", "write 1", "storeFlags 1 8 1", "saveSnapshot"
     };
 
     UseSentences(Check check) {
