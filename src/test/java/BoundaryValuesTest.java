@@ -31,9 +31,10 @@ public final class BoundaryValuesTest {
     };
     private static final String[] CHANGES = {
         "addRelation A", "addClause A T", "addParity A B", "addTuple R T", "removeTuple R T", "clear",
-        "addComplement R", "addIntersection R R", "addProjection R P", "addExchanged R P P", "close R K C", "setVariables N",
-        "addConstraint R V V V V", "removeLastConstraint", "define A V V V V", "removeRedundant", "append H", "parse",
-        "write R", "storeFlags L E R", "setFlag L J F", "takeFlags L R", "saveSnapshot", "restoreSnapshot"
+        "addComplement R", "addIntersection R R", "addProjection R P", "addExchanged R P P", "close R K C",
+        "setVariables N", "addConstraint R V V V V", "removeLastConstraint", "define A V V V V", "removeRedundant",
+        "append H", "parse", "write R", "storeFlags L E R", "setFlag L J F", "takeFlags L R", "saveSnapshot",
+        "restoreSnapshot"
     };
 
     /** Objects at limits, each as the calls that make it. */

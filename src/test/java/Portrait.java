@@ -16,7 +16,8 @@ final class Portrait {
     /** The tuples of a relation as a set: bit t for tuple t. */
     static int tuples(BooleanConstraints x, int relation) {
         int set = 0;
-        for (int tuple = 0; tuple < 1 << x.arity(relation); tuple++) {
+        int arity = x.arity(relation);
+        for (int tuple = 0; tuple < 1 << arity; tuple++) {
             if (x.contains(relation, tuple)) {
                 set |= 1 << tuple;
             }
