@@ -1,3 +1,5 @@
+import java.util.Map;
+
 /** Counts what holds and what does not, and prints what does not. */
 final class Check {
     interface Call {
@@ -38,11 +40,26 @@ final class Check {
         equal(what, outcome(call), "throws " + due.getSimpleName());
     }
 
-    /** The call throws, and what can be asked of the object is the same behind it. */
-    void failsAndKeeps(BooleanConstraints object, String what, Class<? extends RuntimeException> due, Call call) {
-        String before = Portrait.of(object);
-        fails(what, due, call);
-        equal(what + " keeps the state", Portrait.of(object), before);
+    /** The call throws just this class, and leaves everything as it was. */
+    void refuses(Whole.Start start, String what, Class<? extends RuntimeException> due, Whole.Act act) {
+        BooleanConstraints x = start.make();
+        fails(what, due, () -> act.on(x));
+        changesOnly(start, what, act);
+    }
+
+    /** The call leaves all parts as they were but those whose names start with one of these words. */
+    void changesOnly(Whole.Start start, String what, Whole.Act act, String... words) {
+        Map<String, String> before = Whole.of(start);
+        Map<String, String> after = Whole.behind(start, act);
+        for (String part : before.keySet()) {
+            boolean mayChange = false;
+            for (String word : words) {
+                mayChange |= part.startsWith(word);
+            }
+            if (!mayChange) {
+                equal(what + " (" + part + ")", after.get(part), before.get(part));
+            }
+        }
     }
 
     /** The input is refused as a text, with its error position, and leaves nothing behind. */

@@ -61,7 +61,7 @@ final class DescriptionSentences extends Sentences {
                 x.append('1');
                 equal(Check.outcome(() -> add.on(x)), "7");
                 for (int relation = 0; relation < 7; relation++) {
-                    equal(Portrait.tuples(x, relation), 1 << relation);
+                    equal(Whole.tuples(x, relation), 1 << relation);
                 }
                 BooleanConstraints y = eight.make();
                 fails(STATE, () -> add.on(y));
@@ -181,7 +181,7 @@ final class DescriptionSentences extends Sentences {
     private static int closure(int arity, int set, int operationArity, int code) {
         BooleanConstraints x = Given.objectOfSet(arity, set);
         x.close(0, operationArity, code);
-        return Portrait.tuples(x, 0);
+        return Whole.tuples(x, 0);
     }
 
     private void kinds() {
@@ -386,7 +386,7 @@ final class DescriptionSentences extends Sentences {
         if (answer.equals("throws IllegalArgumentException")) {
             return String.valueOf(x.errorPosition());
         }
-        return answer.equals("0") ? x.arity(0) + ":" + Portrait.tuples(x, 0) : answer;
+        return answer.equals("0") ? x.arity(0) + ":" + Whole.tuples(x, 0) : answer;
     }
 
     private void errorPositions() {
@@ -602,12 +602,12 @@ final class DescriptionSentences extends Sentences {
                     x.define(arity, count - 1, count - 2, count - 3, count - 4);
                     equal(x.tupleCount(0), 1 << arity);
                     x.define(arity, 0, 0, 0, 0);
-                    equal(Portrait.tuples(x, 1), 1 | 1 << (1 << arity) - 1);
+                    equal(Whole.tuples(x, 1), 1 | 1 << (1 << arity) - 1);
                 }
             }
             BooleanConstraints x = Given.withVariables(2);
             x.define(4, 1, 0, 1, 0);
-            equal(Portrait.tuples(x, 0), 1 | 1 << 0b0101 | 1 << 0b1010 | 1 << 0b1111);
+            equal(Whole.tuples(x, 0), 1 | 1 << 0b0101 | 1 << 0b1010 | 1 << 0b1111);
         });
         says("setVariables removes the constraints also with the same number.", () -> {
             for (int count = 1; count <= 10; count++) {

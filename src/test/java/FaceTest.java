@@ -7,6 +7,7 @@ import java.nio.file.Path;
 import java.util.Arrays;
 import java.util.Set;
 import java.util.TreeSet;
+import java.util.regex.Matcher;
 import java.util.regex.Pattern;
 
 /** The public face of the document, and the rules of LANGUAGE.md that can be told from the class and its text. */
@@ -46,7 +47,13 @@ public final class FaceTest {
             CHECK.isFalse("inside: not public", Modifier.isPublic(inside.getModifiers()));
             members(inside);
         }
-        text(Files.readString(Path.of(args[0])));
+        String source = Files.readString(Path.of(args[0]));
+        text(source);
+        if (args.length > 1 && Files.isReadable(Path.of(args[1]))) {
+            written(source, Files.readString(Path.of(args[1])));
+        } else {
+            System.out.println("FaceTest: there is no document to compare the face with");
+        }
         CHECK.end();
     }
 
@@ -102,6 +109,28 @@ public final class FaceTest {
         for (Method method : type.getDeclaredMethods()) {
             CHECK.isTrue("parameters of " + method.getName(), method.getParameterCount() <= 7);
         }
+    }
+
+    /** Each line of the document's face, and the signature of each promise, stands in the class word by word. */
+    private static void written(String source, String document) {
+        String words = source.replaceAll("\\s+", " ");
+        int start = document.indexOf("public final class BooleanConstraints {");
+        int found = 0;
+        for (String line : document.substring(start, document.indexOf("```", start)).split("\n")) {
+            if (line.startsWith("    ")) {
+                String due = line.contains("(") ? line.strip().replaceFirst(";$", " {") : line.strip();
+                CHECK.isTrue("the class has " + due, words.contains(" " + due + " "));
+                found++;
+            }
+        }
+        CHECK.equal("lines of the face", found, FACE.length + 4);
+        Matcher signatures = Pattern.compile("(?m)^## Promise \\d+: .*\n\n`(.*)`$").matcher(document);
+        int promises = 0;
+        while (signatures.find()) {
+            CHECK.isTrue("the class has " + signatures.group(1), words.contains(" public " + signatures.group(1) + " {"));
+            promises++;
+        }
+        CHECK.equal("promises", promises, FACE.length + 1);
     }
 
     private static void text(String source) {

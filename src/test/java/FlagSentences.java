@@ -228,9 +228,9 @@ final class FlagSentences extends Sentences {
                     x.addParity(4, 0);
                     x.storeFlags(slot, 16, 0);
                     x.takeFlags(slot, 1);
-                    equal(Portrait.tuples(x, 1), set);
+                    equal(Whole.tuples(x, 1), set);
                     equal(x.arity(1), 4);
-                    equal(Portrait.tuples(x, 0), set);
+                    equal(Whole.tuples(x, 0), set);
                     equal(elements(x, slot), digits(set, 16));
                 }
             }
@@ -245,14 +245,14 @@ final class FlagSentences extends Sentences {
                     x.storeFlags(1, length, 7);
                     int due = (1 << Math.min(length, 1 << arity)) - 1;
                     equal(x.takeFlags(1, arity - 1), Integer.bitCount(due));
-                    equal(Portrait.tuples(x, arity - 1), due);
+                    equal(Whole.tuples(x, arity - 1), due);
                     equal(x.tupleCount(arity - 1), Integer.bitCount(due));
                 }
             }
             // The complement and the comparison would show what was not ignored.
             BooleanConstraints x = Given.full();
             x.takeFlags(0, 0);
-            equal(Portrait.output(x).length(), 79);
+            equal(Whole.output(x).length(), 79);
             equal(x.write(0), 3);
             equal(x.storeFlags(1, 16, 0), 2);
         });
@@ -271,7 +271,7 @@ final class FlagSentences extends Sentences {
                 x.storeFlags(0, 0, 0);
                 x.takeFlags(0, relation);
                 for (int other = 0; other < 8; other++) {
-                    equal(Portrait.tuples(x, other), other == relation ? 0 : 1 << other);
+                    equal(Whole.tuples(x, other), other == relation ? 0 : 1 << other);
                 }
             }
         });

@@ -7,10 +7,23 @@ public final class FlagsTest {
     private static final int[] NO_SLOTS = {-1, 3, Integer.MIN_VALUE, Integer.MAX_VALUE};
     private static final int[] NO_LENGTHS = {-1, 17, 32, Integer.MIN_VALUE, Integer.MAX_VALUE};
 
+    private static final Whole.Start ONE_RELATION = () -> Given.object(4, 1, 2, 15);
+    /** An array as long as may be, a short one, and one without elements. */
+    private static final Whole.Start ARRAY_OF_EACH_LENGTH = () -> {
+        BooleanConstraints x = ONE_RELATION.make();
+        x.storeFlags(0, 16, 0);
+        x.storeFlags(1, 3, 0);
+        x.storeFlags(2, 0, 0);
+        return x;
+    };
+
     public static void main(String[] args) {
         storeFlags();
+        storeFlagsRefused();
         setFlag();
+        setFlagRefused();
         takeFlags();
+        takeFlagsRefused();
         CHECK.end();
     }
 
@@ -35,7 +48,7 @@ public final class FlagsTest {
                     CHECK.equal("51: element", element(x, slot, i), i < 1 << arity && i != 1 ? 1 : 0);
                 }
                 final int asked = length;
-                CHECK.failsAndKeeps(x, "51: the length", INDEX, () -> x.setFlag(slot, asked, true));
+                CHECK.fails("51: the length", INDEX, () -> x.setFlag(slot, asked, true));
                 CHECK.fails("51: the other slots stay", STATE, () -> x.setFlag((slot + 1) % 3, 0, true));
             }
         }
@@ -48,26 +61,26 @@ public final class FlagsTest {
         x.clear();
         x.addRelation(4);
         CHECK.equal("51: a copy", x.takeFlags(2, 0), 8);
-        for (int wrong : NO_LENGTHS) {
-            CHECK.failsAndKeeps(x, "51: length", ARGUMENT, () -> x.storeFlags(0, wrong, 0));
-            CHECK.failsAndKeeps(x, "51: relation before length", INDEX, () -> x.storeFlags(0, wrong, 1));
-            CHECK.failsAndKeeps(x, "51: slot before length", INDEX, () -> x.storeFlags(3, wrong, 0));
+    }
+
+    private static void storeFlagsRefused() {
+        for (Whole.Start start : new Whole.Start[] {ONE_RELATION, ARRAY_OF_EACH_LENGTH}) {
+            for (int wrong : NO_LENGTHS) {
+                CHECK.refuses(start, "51: length", ARGUMENT, x -> x.storeFlags(0, wrong, 0));
+                CHECK.refuses(start, "51: relation before length", INDEX, x -> x.storeFlags(0, wrong, 1));
+                CHECK.refuses(start, "51: slot before length", INDEX, x -> x.storeFlags(3, wrong, 0));
+            }
+            for (int wrong : NO_SLOTS) {
+                CHECK.refuses(start, "51: slot", INDEX, x -> x.storeFlags(wrong, 1, 0));
+            }
+            CHECK.refuses(start, "51: relation", INDEX, x -> x.storeFlags(0, 1, 1));
+            CHECK.refuses(start, "51: relation", INDEX, x -> x.storeFlags(0, 1, -1));
         }
-        for (int wrong : NO_SLOTS) {
-            CHECK.failsAndKeeps(x, "51: slot", INDEX, () -> x.storeFlags(wrong, 1, 0));
-        }
-        CHECK.failsAndKeeps(x, "51: relation", INDEX, () -> x.storeFlags(0, 1, 1));
-        CHECK.failsAndKeeps(x, "51: relation", INDEX, () -> x.storeFlags(0, 1, -1));
     }
 
     private static void setFlag() {
         BooleanConstraints x = new BooleanConstraints();
         x.addRelation(1);
-        for (int wrong : NO_SLOTS) {
-            CHECK.failsAndKeeps(x, "52: slot", INDEX, () -> x.setFlag(wrong, 0, true));
-        }
-        CHECK.failsAndKeeps(x, "52: empty", STATE, () -> x.setFlag(0, 0, true));
-        CHECK.failsAndKeeps(x, "52: empty before the element", STATE, () -> x.setFlag(2, -1, true));
         x.storeFlags(1, 16, 0);
         for (int i = 0; i < 16; i++) {
             CHECK.isFalse("52: false before", x.setFlag(1, i, true));
@@ -76,11 +89,24 @@ public final class FlagsTest {
             CHECK.isFalse("52: false before", x.setFlag(1, i, false));
         }
         CHECK.equal("52: the relation stays", x.tupleCount(0), 0);
-        for (int wrong : new int[] {-1, 16, 32, Integer.MIN_VALUE, Integer.MAX_VALUE}) {
-            CHECK.failsAndKeeps(x, "52: element", INDEX, () -> x.setFlag(1, wrong, true));
+    }
+
+    private static void setFlagRefused() {
+        for (int wrong : NO_SLOTS) {
+            CHECK.refuses(ONE_RELATION, "52: slot", INDEX, x -> x.setFlag(wrong, 0, true));
+            CHECK.refuses(ARRAY_OF_EACH_LENGTH, "52: slot", INDEX, x -> x.setFlag(wrong, 0, true));
         }
-        x.storeFlags(1, 0, 0);
-        CHECK.failsAndKeeps(x, "52: an array without elements is no empty slot", INDEX, () -> x.setFlag(1, 0, true));
+        CHECK.refuses(ONE_RELATION, "52: empty", STATE, x -> x.setFlag(0, 0, true));
+        CHECK.refuses(ONE_RELATION, "52: empty before the element", STATE, x -> x.setFlag(2, -1, true));
+        for (int wrong : new int[] {-1, 16, 32, Integer.MIN_VALUE, Integer.MAX_VALUE}) {
+            for (boolean value : new boolean[] {false, true}) {
+                CHECK.refuses(ARRAY_OF_EACH_LENGTH, "52: element", INDEX, x -> x.setFlag(0, wrong, value));
+                CHECK.refuses(ARRAY_OF_EACH_LENGTH, "52: element", INDEX, x -> x.setFlag(1, wrong, value));
+            }
+        }
+        CHECK.refuses(ARRAY_OF_EACH_LENGTH, "52: behind the last element", INDEX, x -> x.setFlag(1, 3, true));
+        CHECK.refuses(ARRAY_OF_EACH_LENGTH, "52: an array without elements is no empty slot", INDEX,
+            x -> x.setFlag(2, 0, true));
     }
 
     private static void takeFlags() {
@@ -90,15 +116,15 @@ public final class FlagsTest {
         }
         x.addParity(4, 0);
         x.storeFlags(0, 16, 4);
-        int even = Portrait.tuples(x, 4);
+        int even = Whole.tuples(x, 4);
         for (int arity = 1; arity <= 4; arity++) {
             CHECK.equal("53: count", x.takeFlags(0, arity - 1), 1 << (arity - 1));
-            CHECK.equal("53: tuples", Portrait.tuples(x, arity - 1), even & ((1 << (1 << arity)) - 1));
+            CHECK.equal("53: tuples", Whole.tuples(x, arity - 1), even & ((1 << (1 << arity)) - 1));
         }
         x.storeFlags(1, 4, 4);
         x.setFlag(1, 1, true);
         CHECK.equal("53: beyond the array", x.takeFlags(1, 4), 3);
-        CHECK.equal("53: beyond the array", Portrait.tuples(x, 4), 0b1011);
+        CHECK.equal("53: beyond the array", Whole.tuples(x, 4), 0b1011);
         CHECK.equal("53: the array stays", x.takeFlags(0, 4), 8);
         x.storeFlags(2, 0, 4);
         CHECK.equal("53: an array without elements", x.takeFlags(2, 4), 0);
@@ -106,14 +132,16 @@ public final class FlagsTest {
         x.setFlag(2, 15, true);
         CHECK.equal("53: an element beyond the tuples is ignored", x.takeFlags(2, 2), 0);
         CHECK.equal("53: and is there all the same", x.takeFlags(2, 4), 1);
+    }
+
+    private static void takeFlagsRefused() {
         for (int wrong : NO_SLOTS) {
-            CHECK.failsAndKeeps(x, "53: slot", INDEX, () -> x.takeFlags(wrong, 0));
+            CHECK.refuses(ARRAY_OF_EACH_LENGTH, "53: slot", INDEX, x -> x.takeFlags(wrong, 0));
         }
-        CHECK.failsAndKeeps(x, "53: relation", INDEX, () -> x.takeFlags(0, 5));
-        CHECK.failsAndKeeps(x, "53: relation", INDEX, () -> x.takeFlags(0, -1));
-        BooleanConstraints y = new BooleanConstraints();
-        CHECK.failsAndKeeps(y, "53: relation before empty", INDEX, () -> y.takeFlags(0, 0));
-        y.addClause(2, 0);
-        CHECK.failsAndKeeps(y, "53: empty", STATE, () -> y.takeFlags(0, 0));
+        CHECK.refuses(ARRAY_OF_EACH_LENGTH, "53: relation", INDEX, x -> x.takeFlags(0, 1));
+        CHECK.refuses(ARRAY_OF_EACH_LENGTH, "53: relation", INDEX, x -> x.takeFlags(0, -1));
+        CHECK.refuses(Given.NEW, "53: relation before empty", INDEX, x -> x.takeFlags(0, 0));
+        CHECK.refuses(ONE_RELATION, "53: empty", STATE, x -> x.takeFlags(0, 0));
+        CHECK.equal("53: an array without elements is no empty slot", ARRAY_OF_EACH_LENGTH.make().takeFlags(2, 0), 0);
     }
 }

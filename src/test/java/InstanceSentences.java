@@ -657,13 +657,13 @@ final class InstanceSentences extends Sentences {
             for (int variable = 0; variable < 10; variable++) {
                 x.addConstraint(variable % 9 == 0 ? 0 : 1, variable, 0, 0, 0);
             }
-            equal(Portrait.tuples(x, x.define(4, 0, 1, 8, 9)), 1 << 0b1001);
-            equal(Portrait.tuples(x, x.define(3, 9, 5, 6, 0)), 1 << 0b001);
-            equal(Portrait.tuples(x, x.define(2, 4, 9, 0, 0)), 1 << 0b10);
-            equal(Portrait.tuples(x, x.define(1, 9, 0, 0, 0)), 1 << 1);
+            equal(Whole.tuples(x, x.define(4, 0, 1, 8, 9)), 1 << 0b1001);
+            equal(Whole.tuples(x, x.define(3, 9, 5, 6, 0)), 1 << 0b001);
+            equal(Whole.tuples(x, x.define(2, 4, 9, 0, 0)), 1 << 0b10);
+            equal(Whole.tuples(x, x.define(1, 9, 0, 0, 0)), 1 << 1);
             BooleanConstraints none = NO_SOLUTION.make();
             for (int arity = 1; arity <= 4; arity++) {
-                equal(Portrait.tuples(none, none.define(arity, 0, 1, 0, 1)), 0);
+                equal(Whole.tuples(none, none.define(arity, 0, 1, 0, 1)), 0);
                 equal(none.arity(1 + arity), arity);
             }
             changesOnly(Given.SOME, y -> y.define(4, 0, 1, 2, 3), "relations");
@@ -717,7 +717,7 @@ final class InstanceSentences extends Sentences {
             int[] v = {(variable + 1) % 10, (variable + 1) % 10, (variable + 1) % 10, (variable + 1) % 10};
             v[position] = variable;
             for (int arity = position + 1; arity <= 4; arity++) {
-                equal(Portrait.tuples(x, x.define(arity, v[0], v[1], v[2], v[3])), 1 << (1 << position));
+                equal(Whole.tuples(x, x.define(arity, v[0], v[1], v[2], v[3])), 1 << (1 << position));
             }
         }
     }

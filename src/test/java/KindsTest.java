@@ -6,6 +6,13 @@ public final class KindsTest {
     private static final Class<java.util.NoSuchElementException> NONE = java.util.NoSuchElementException.class;
     private static final int[] NO_KINDS = {-1, 6, Integer.MIN_VALUE, Integer.MAX_VALUE};
 
+    private static final Whole.Start TWO_RELATIONS = () -> {
+        BooleanConstraints x = Given.objectOfSet(2, 0b0110);
+        x.addClause(1, 1);
+        return x;
+    };
+    private static final Whole.Start HARD = () -> Given.objectOfSet(3, 1 << 1 | 1 << 2 | 1 << 4);
+
     public static void main(String[] args) {
         relationHasKind();
         hasKind();
@@ -52,16 +59,14 @@ public final class KindsTest {
                 CHECK.equal("29: set " + set + " kind " + kind, x.relationHasKind(0, kind), hasKind(4, set, kind));
             }
         }
-        BooleanConstraints x = Given.objectOfSet(2, 0b0110);
-        x.addClause(1, 1);
-        CHECK.isTrue("29: the relation alone counts", x.relationHasKind(1, 0));
-        CHECK.isFalse("29: the relation alone counts", x.relationHasKind(0, 0));
+        CHECK.isTrue("29: the relation alone counts", TWO_RELATIONS.make().relationHasKind(1, 0));
+        CHECK.isFalse("29: the relation alone counts", TWO_RELATIONS.make().relationHasKind(0, 0));
         for (int wrong : NO_KINDS) {
-            CHECK.failsAndKeeps(x, "29: kind", ARGUMENT, () -> x.relationHasKind(0, wrong));
-            CHECK.failsAndKeeps(x, "29: relation before kind", INDEX, () -> x.relationHasKind(2, wrong));
+            CHECK.refuses(TWO_RELATIONS, "29: kind", ARGUMENT, x -> x.relationHasKind(0, wrong));
+            CHECK.refuses(TWO_RELATIONS, "29: relation before kind", INDEX, x -> x.relationHasKind(2, wrong));
         }
-        CHECK.failsAndKeeps(x, "29: relation", INDEX, () -> x.relationHasKind(2, 0));
-        CHECK.failsAndKeeps(x, "29: relation", INDEX, () -> x.relationHasKind(-1, 5));
+        CHECK.refuses(TWO_RELATIONS, "29: relation", INDEX, x -> x.relationHasKind(2, 0));
+        CHECK.refuses(TWO_RELATIONS, "29: relation", INDEX, x -> x.relationHasKind(-1, 5));
     }
 
     private static void hasKind() {
@@ -83,7 +88,7 @@ public final class KindsTest {
         x.removeTuple(2, 3);
         CHECK.isTrue("30: the relations as they are now", x.hasKind(5));
         for (int wrong : NO_KINDS) {
-            CHECK.failsAndKeeps(x, "30: kind", ARGUMENT, () -> x.hasKind(wrong));
+            CHECK.refuses(TWO_RELATIONS, "30: kind", ARGUMENT, y -> y.hasKind(wrong));
         }
     }
 
@@ -98,8 +103,8 @@ public final class KindsTest {
         BooleanConstraints sum = Given.objectOfSet(3, 0b10010110);
         sum.addParity(2, 1);
         CHECK.equal("31: sum", sum.lowestKind(), 5);
-        BooleanConstraints hard = Given.objectOfSet(3, 1 << 1 | 1 << 2 | 1 << 4);
-        CHECK.failsAndKeeps(hard, "31: none", NONE, hard::lowestKind);
+        CHECK.refuses(HARD, "31: none", NONE, BooleanConstraints::lowestKind);
+        BooleanConstraints hard = HARD.make();
         hard.clear();
         CHECK.equal("31: easy again", hard.lowestKind(), 0);
     }

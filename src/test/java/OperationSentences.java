@@ -417,14 +417,14 @@ final class OperationSentences extends Sentences {
                     x.close(0, arity, code);
                     isTrue(x.contains(0, start));
                     isTrue(x.preserves(arity, code, 0));
-                    equal(Portrait.tuples(x, 0), leastClosed(1 << start, arity, code));
+                    equal(Whole.tuples(x, 0), leastClosed(1 << start, arity, code));
                 }
             });
             BooleanConstraints x = Given.object(4, 1, 2, 4, 8);
             x.close(0, 2, 14);
-            equal(Portrait.tuples(x, 0), 0xFFFE);
+            equal(Whole.tuples(x, 0), 0xFFFE);
             x.close(0, 2, 14);
-            equal(Portrait.tuples(x, 0), 0xFFFE);
+            equal(Whole.tuples(x, 0), 0xFFFE);
             changesOnly(Given.SOME, y -> y.close(1, 2, 8), "relations", "instance");
             changesOnly(Given.SOME, y -> y.close(3, 3, 150));
         });
@@ -433,7 +433,7 @@ final class OperationSentences extends Sentences {
                 BooleanConstraints x = Given.numbered(8, 3);
                 x.close(relation, 1, 1);
                 for (int other = 0; other < 8; other++) {
-                    equal(Portrait.tuples(x, other), other == relation ? 1 << other | 1 << 7 - other : 1 << other);
+                    equal(Whole.tuples(x, other), other == relation ? 1 << other | 1 << 7 - other : 1 << other);
                 }
             }
         });

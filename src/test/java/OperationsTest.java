@@ -9,8 +9,12 @@ public final class OperationsTest {
         {1, Integer.MIN_VALUE}, {2, Integer.MAX_VALUE}, {3, Integer.MIN_VALUE}, {0, 0}, {4, 0}, {-1, 0},
         {Integer.MIN_VALUE, 0}, {Integer.MAX_VALUE, 0}, {33, 1}, {32, 0}};
 
+    /** The relation of two values of which the first is not greater: monotone operations preserve it. */
+    private static final Whole.Start ORDER = () -> Given.object(2, 0b00, 0b10, 0b11);
+    private static final Whole.Start ONE_OF_THREE = () -> Given.object(3, 1, 2, 4);
+
     private interface OperationCall {
-        Object answer(int arity, int code);
+        Object answer(BooleanConstraints x, int arity, int code);
     }
 
     public static void main(String[] args) {
@@ -23,6 +27,8 @@ public final class OperationsTest {
         isMonotone();
         projectedArgument();
         close();
+        closeRefused();
+        closuresAreLeast();
         dual();
         dependsOn();
         compose();
@@ -33,30 +39,30 @@ public final class OperationsTest {
         return 1 << (1 << arity);
     }
 
-    private static void refusesNoOperations(BooleanConstraints x, String what, OperationCall call) {
+    private static void refusesNoOperations(Whole.Start start, String what, OperationCall call) {
         for (int[] wrong : NO_OPERATIONS) {
-            CHECK.failsAndKeeps(x, what + " for " + wrong[0] + " and " + wrong[1], ARGUMENT,
-                () -> call.answer(wrong[0], wrong[1]));
+            CHECK.refuses(start, what + " for " + wrong[0] + " and " + wrong[1], ARGUMENT,
+                x -> call.answer(x, wrong[0], wrong[1]));
         }
     }
 
     private static void apply() {
-        BooleanConstraints x = new BooleanConstraints();
         for (int arity = 1; arity <= 3; arity++) {
             for (int code = 0; code < codes(arity); code++) {
+                BooleanConstraints x = new BooleanConstraints();
                 for (int i = 0; i < 8; i++) {
                     int bit = i % (1 << arity);
                     CHECK.equal("17: value", x.apply(arity, code, i & 1, i >> 1 & 1, i >> 2), code >> bit & 1);
                 }
             }
         }
-        refusesNoOperations(x, "17: operation", (arity, code) -> x.apply(arity, code, 0, 0, 0));
+        refusesNoOperations(Given.NEW, "17: operation", (x, arity, code) -> x.apply(arity, code, 0, 0, 0));
         for (int wrong : new int[] {-1, 2, Integer.MIN_VALUE, Integer.MAX_VALUE}) {
-            CHECK.fails("17: x", ARGUMENT, () -> x.apply(3, 0, wrong, 0, 0));
-            CHECK.fails("17: y", ARGUMENT, () -> x.apply(3, 0, 0, wrong, 0));
-            CHECK.fails("17: z", ARGUMENT, () -> x.apply(3, 0, 0, 0, wrong));
-            CHECK.fails("17: y that does not count", ARGUMENT, () -> x.apply(1, 0, 0, wrong, 0));
-            CHECK.fails("17: z that does not count", ARGUMENT, () -> x.apply(2, 0, 0, 0, wrong));
+            CHECK.refuses(Given.NEW, "17: x", ARGUMENT, x -> x.apply(3, 0, wrong, 0, 0));
+            CHECK.refuses(Given.NEW, "17: y", ARGUMENT, x -> x.apply(3, 0, 0, wrong, 0));
+            CHECK.refuses(Given.NEW, "17: z", ARGUMENT, x -> x.apply(3, 0, 0, 0, wrong));
+            CHECK.refuses(Given.NEW, "17: y that does not count", ARGUMENT, x -> x.apply(1, 0, 0, wrong, 0));
+            CHECK.refuses(Given.NEW, "17: z that does not count", ARGUMENT, x -> x.apply(2, 0, 0, 0, wrong));
         }
     }
 
@@ -71,21 +77,16 @@ public final class OperationsTest {
         CHECK.isFalse("18: sum of two", x.preserves(2, 6, 0));
         // Only the third argument brings in what is missing.
         CHECK.isFalse("18: first and not third", x.preserves(3, 0x0A, 0));
-        x.addRelation(4);
         for (int code = 0; code < 256; code++) {
-            CHECK.isTrue("18: no tuples", x.preserves(3, code, 1));
+            BooleanConstraints order = ORDER.make();
+            order.addRelation(4);
+            CHECK.equal("18: the order and " + code, order.preserves(3, code, 0), order.isMonotone(3, code));
+            CHECK.isTrue("18: no tuples", order.preserves(3, code, 1));
         }
-        int order = x.addRelation(2);
-        x.addTuple(order, 0b00);
-        x.addTuple(order, 0b10);
-        x.addTuple(order, 0b11);
-        for (int code = 0; code < 256; code++) {
-            CHECK.equal("18: the order and " + code, x.preserves(3, code, order), x.isMonotone(3, code));
-        }
-        refusesNoOperations(x, "18: operation", (arity, code) -> x.preserves(arity, code, 0));
-        refusesNoOperations(x, "18: operation before relation", (arity, code) -> x.preserves(arity, code, 3));
-        CHECK.failsAndKeeps(x, "18: relation", INDEX, () -> x.preserves(3, 255, 3));
-        CHECK.failsAndKeeps(x, "18: relation", INDEX, () -> x.preserves(1, 0, -1));
+        refusesNoOperations(ORDER, "18: operation", (y, arity, code) -> y.preserves(arity, code, 0));
+        refusesNoOperations(ORDER, "18: operation before relation", (y, arity, code) -> y.preserves(arity, code, 1));
+        CHECK.refuses(ORDER, "18: relation", INDEX, y -> y.preserves(3, 255, 1));
+        CHECK.refuses(ORDER, "18: relation", INDEX, y -> y.preserves(1, 0, -1));
     }
 
     private static void isPolymorphism() {
@@ -102,7 +103,7 @@ public final class OperationsTest {
         CHECK.isFalse("19: the last relation counts", x.isPolymorphism(2, 14));
         CHECK.isFalse("19: the first relation counts", x.isPolymorphism(2, 8));
         CHECK.isTrue("19: majority", x.isPolymorphism(3, 232));
-        refusesNoOperations(x, "19: operation", x::isPolymorphism);
+        refusesNoOperations(ORDER, "19: operation", BooleanConstraints::isPolymorphism);
     }
 
     private static void polymorphismCount() {
@@ -110,16 +111,16 @@ public final class OperationsTest {
         CHECK.equal("20: all of arity 1", x.polymorphismCount(1), 4);
         CHECK.equal("20: all of arity 2", x.polymorphismCount(2), 16);
         CHECK.equal("20: all of arity 3", x.polymorphismCount(3), 256);
-        BooleanConstraints order = Given.object(2, 0b00, 0b10, 0b11);
+        BooleanConstraints order = ORDER.make();
         CHECK.equal("20: monotone of arity 1", order.polymorphismCount(1), 3);
         CHECK.equal("20: monotone of arity 2", order.polymorphismCount(2), 6);
         CHECK.equal("20: monotone of arity 3", order.polymorphismCount(3), 20);
-        BooleanConstraints one = Given.object(3, 1, 2, 4);
+        BooleanConstraints one = ONE_OF_THREE.make();
         CHECK.equal("20: the projections alone, 1", one.polymorphismCount(1), 1);
         CHECK.equal("20: the projections alone, 2", one.polymorphismCount(2), 2);
         CHECK.equal("20: the projections alone, 3", one.polymorphismCount(3), 3);
         for (int wrong : new int[] {0, 4, -1, 32, Integer.MIN_VALUE, Integer.MAX_VALUE}) {
-            CHECK.failsAndKeeps(one, "20: arity", ARGUMENT, () -> one.polymorphismCount(wrong));
+            CHECK.refuses(ONE_OF_THREE, "20: arity", ARGUMENT, y -> y.polymorphismCount(wrong));
         }
     }
 
@@ -129,33 +130,33 @@ public final class OperationsTest {
             CHECK.equal("21: all", x.polymorphism(3, code), code);
         }
         CHECK.fails("21: behind the last", NONE, () -> x.polymorphism(3, 256));
-        BooleanConstraints order = Given.object(2, 0b00, 0b10, 0b11);
+        BooleanConstraints order = ORDER.make();
         int[] monotone = {0, 8, 10, 12, 14, 15};
         for (int i = 0; i < 6; i++) {
             CHECK.equal("21: monotone", order.polymorphism(2, i), monotone[i]);
         }
-        CHECK.failsAndKeeps(order, "21: behind the last", NONE, () -> order.polymorphism(2, 6));
-        CHECK.failsAndKeeps(order, "21: negative", NONE, () -> order.polymorphism(2, -1));
-        CHECK.failsAndKeeps(order, "21: least", NONE, () -> order.polymorphism(1, Integer.MIN_VALUE));
-        CHECK.failsAndKeeps(order, "21: greatest", NONE, () -> order.polymorphism(1, Integer.MAX_VALUE));
+        CHECK.refuses(ORDER, "21: behind the last", NONE, y -> y.polymorphism(2, 6));
+        CHECK.refuses(ORDER, "21: negative", NONE, y -> y.polymorphism(2, -1));
+        CHECK.refuses(ORDER, "21: least", NONE, y -> y.polymorphism(1, Integer.MIN_VALUE));
+        CHECK.refuses(ORDER, "21: greatest", NONE, y -> y.polymorphism(1, Integer.MAX_VALUE));
         for (int wrong : new int[] {0, 4, -1, Integer.MIN_VALUE, Integer.MAX_VALUE}) {
-            CHECK.failsAndKeeps(order, "21: arity", ARGUMENT, () -> order.polymorphism(wrong, 0));
-            CHECK.failsAndKeeps(order, "21: arity before index", ARGUMENT, () -> order.polymorphism(wrong, -1));
+            CHECK.refuses(ORDER, "21: arity", ARGUMENT, y -> y.polymorphism(wrong, 0));
+            CHECK.refuses(ORDER, "21: arity before index", ARGUMENT, y -> y.polymorphism(wrong, -1));
         }
     }
 
     private static void isIdempotent() {
-        BooleanConstraints x = new BooleanConstraints();
         for (int arity = 1; arity <= 3; arity++) {
             for (int code = 0; code < codes(arity); code++) {
+                BooleanConstraints x = new BooleanConstraints();
                 boolean due = x.apply(arity, code, 0, 0, 0) == 0 && x.apply(arity, code, 1, 1, 1) == 1;
                 CHECK.equal("22: arity " + arity + " code " + code, x.isIdempotent(arity, code), due);
             }
         }
-        CHECK.isTrue("22: minimum", x.isIdempotent(2, 8));
-        CHECK.isFalse("22: sum of two", x.isIdempotent(2, 6));
-        CHECK.isTrue("22: identity", x.isIdempotent(1, 2));
-        refusesNoOperations(x, "22: operation", x::isIdempotent);
+        CHECK.isTrue("22: minimum", new BooleanConstraints().isIdempotent(2, 8));
+        CHECK.isFalse("22: sum of two", new BooleanConstraints().isIdempotent(2, 6));
+        CHECK.isTrue("22: identity", new BooleanConstraints().isIdempotent(1, 2));
+        refusesNoOperations(Given.NEW, "22: operation", BooleanConstraints::isIdempotent);
     }
 
     private static void isMonotone() {
@@ -175,7 +176,7 @@ public final class OperationsTest {
             }
             CHECK.equal("23: count of arity " + arity, count, counts[arity]);
         }
-        refusesNoOperations(x, "23: operation", x::isMonotone);
+        refusesNoOperations(Given.NEW, "23: operation", BooleanConstraints::isMonotone);
     }
 
     private static void projectedArgument() {
@@ -196,17 +197,17 @@ public final class OperationsTest {
                 }
             }
         }
-        refusesNoOperations(x, "24: operation", x::projectedArgument);
+        refusesNoOperations(Given.NEW, "24: operation", BooleanConstraints::projectedArgument);
     }
 
     private static void close() {
         BooleanConstraints x = Given.object(3, 0b011, 0b101, 0b110);
         CHECK.equal("25: minimum", x.close(0, 2, 8), 7);
-        CHECK.equal("25: tuples", Portrait.tuples(x, 0), 0x7F);
+        CHECK.equal("25: tuples", Whole.tuples(x, 0), 0x7F);
         CHECK.equal("25: again", x.close(0, 2, 8), 7);
         BooleanConstraints y = Given.object(4, 0b0001, 0b0010, 0b0100, 0b1000);
         CHECK.equal("25: sum of three", y.close(0, 3, 150), 8);
-        CHECK.equal("25: odd tuples", Portrait.tuples(y, 0), 1 << 1 | 1 << 2 | 1 << 4 | 1 << 7 | 1 << 8 | 1 << 11
+        CHECK.equal("25: odd tuples", Whole.tuples(y, 0), 1 << 1 | 1 << 2 | 1 << 4 | 1 << 7 | 1 << 8 | 1 << 11
             | 1 << 13 | 1 << 14);
         CHECK.equal("25: sum of two", y.close(0, 2, 6), 16);
         BooleanConstraints z = Given.object(2);
@@ -214,15 +215,17 @@ public final class OperationsTest {
         CHECK.equal("25: no tuples", z.close(0, 3, 255), 0);
         z.addTuple(0, 1);
         CHECK.equal("25: constant", z.close(0, 1, 3), 2);
-        CHECK.equal("25: constant", Portrait.tuples(z, 0), 0b1010);
+        CHECK.equal("25: constant", Whole.tuples(z, 0), 0b1010);
         CHECK.equal("25: not and", z.close(0, 2, 7), 4);
-        CHECK.failsAndKeeps(z, "25: relation", INDEX, () -> z.close(1, 1, 0));
-        CHECK.failsAndKeeps(z, "25: relation", INDEX, () -> z.close(-1, 1, 0));
-        refusesNoOperations(z, "25: operation", (arity, code) -> z.close(0, arity, code));
+    }
+
+    private static void closeRefused() {
+        CHECK.refuses(ORDER, "25: relation", INDEX, x -> x.close(1, 1, 0));
+        CHECK.refuses(ORDER, "25: relation", INDEX, x -> x.close(-1, 1, 0));
+        refusesNoOperations(ORDER, "25: operation", (x, arity, code) -> x.close(0, arity, code));
         for (int[] wrong : NO_OPERATIONS) {
-            CHECK.failsAndKeeps(z, "25: relation before operation", INDEX, () -> z.close(1, wrong[0], wrong[1]));
+            CHECK.refuses(ORDER, "25: relation before operation", INDEX, x -> x.close(1, wrong[0], wrong[1]));
         }
-        closuresAreLeast();
     }
 
     /** The closure is preserved, holds the relation, and lies within each preserved set that holds it. */
@@ -239,18 +242,18 @@ public final class OperationsTest {
                 }
                 BooleanConstraints x = Given.objectOfSet(3, set);
                 CHECK.equal("25: count for " + code, x.close(0, 3, code), Integer.bitCount(due));
-                CHECK.equal("25: closure for " + code, Portrait.tuples(x, 0), due);
+                CHECK.equal("25: closure for " + code, Whole.tuples(x, 0), due);
             }
         }
     }
 
     private static void dual() {
-        BooleanConstraints x = new BooleanConstraints();
-        CHECK.equal("26: minimum", x.dual(2, 8), 14);
-        CHECK.equal("26: majority", x.dual(3, 232), 232);
-        CHECK.equal("26: constant", x.dual(1, 0), 3);
+        CHECK.equal("26: minimum", new BooleanConstraints().dual(2, 8), 14);
+        CHECK.equal("26: majority", new BooleanConstraints().dual(3, 232), 232);
+        CHECK.equal("26: constant", new BooleanConstraints().dual(1, 0), 3);
         for (int arity = 1; arity <= 3; arity++) {
             for (int code = 0; code < codes(arity); code++) {
+                BooleanConstraints x = new BooleanConstraints();
                 int dual = x.dual(arity, code);
                 for (int i = 0; i < 8; i++) {
                     int here = x.apply(arity, dual, i & 1, i >> 1 & 1, i >> 2);
@@ -259,30 +262,33 @@ public final class OperationsTest {
                 }
             }
         }
-        refusesNoOperations(x, "26: operation", x::dual);
+        refusesNoOperations(Given.NEW, "26: operation", BooleanConstraints::dual);
     }
 
     private static void dependsOn() {
-        BooleanConstraints x = new BooleanConstraints();
         for (int arity = 1; arity <= 3; arity++) {
             for (int code = 0; code < codes(arity); code++) {
-                for (int argument = 0; argument < arity; argument++) {
-                    boolean due = false;
-                    for (int i = 0; i < 1 << arity; i++) {
-                        due |= (code >> i & 1) != (code >> (i ^ 1 << argument) & 1);
-                    }
-                    CHECK.equal("27: code " + code, x.dependsOn(arity, code, argument), due);
-                }
-                final int askedArity = arity;
-                final int askedCode = code;
-                CHECK.fails("27: argument", INDEX, () -> x.dependsOn(askedArity, askedCode, askedArity));
-                CHECK.fails("27: argument", INDEX, () -> x.dependsOn(askedArity, askedCode, -1));
+                dependsOnEach(arity, code);
             }
         }
-        CHECK.fails("27: argument", INDEX, () -> x.dependsOn(1, 0, Integer.MIN_VALUE));
-        CHECK.fails("27: argument", INDEX, () -> x.dependsOn(3, 0, Integer.MAX_VALUE));
-        refusesNoOperations(x, "27: operation", (arity, code) -> x.dependsOn(arity, code, 0));
-        refusesNoOperations(x, "27: operation before argument", (arity, code) -> x.dependsOn(arity, code, 3));
+        CHECK.refuses(Given.NEW, "27: argument", INDEX, x -> x.dependsOn(1, 0, Integer.MIN_VALUE));
+        CHECK.refuses(Given.NEW, "27: argument", INDEX, x -> x.dependsOn(3, 0, Integer.MAX_VALUE));
+        refusesNoOperations(Given.NEW, "27: operation", (x, arity, code) -> x.dependsOn(arity, code, 0));
+        refusesNoOperations(Given.NEW, "27: operation before argument",
+            (x, arity, code) -> x.dependsOn(arity, code, 3));
+    }
+
+    private static void dependsOnEach(int arity, int code) {
+        BooleanConstraints x = new BooleanConstraints();
+        for (int argument = 0; argument < arity; argument++) {
+            boolean due = false;
+            for (int i = 0; i < 1 << arity; i++) {
+                due |= (code >> i & 1) != (code >> (i ^ 1 << argument) & 1);
+            }
+            CHECK.equal("27: code " + code, x.dependsOn(arity, code, argument), due);
+        }
+        CHECK.fails("27: argument", INDEX, () -> x.dependsOn(arity, code, arity));
+        CHECK.fails("27: argument", INDEX, () -> x.dependsOn(arity, code, -1));
     }
 
     private static void compose() {
@@ -296,17 +302,18 @@ public final class OperationsTest {
         for (int arity = 1; arity <= 3; arity++) {
             for (int code = 0; code < codes(arity); code++) {
                 for (int inner = 0; inner < 16; inner++) {
-                    composes(x, arity, code, inner);
+                    composes(arity, code, inner);
                 }
             }
         }
         for (int wrong : new int[] {-1, 16, Integer.MIN_VALUE, Integer.MAX_VALUE}) {
-            CHECK.fails("28: inner", ARGUMENT, () -> x.compose(1, 0, wrong));
+            CHECK.refuses(Given.NEW, "28: inner", ARGUMENT, y -> y.compose(1, 0, wrong));
         }
-        refusesNoOperations(x, "28: operation", (arity, code) -> x.compose(arity, code, 0));
+        refusesNoOperations(Given.NEW, "28: operation", (y, arity, code) -> y.compose(arity, code, 0));
     }
 
-    private static void composes(BooleanConstraints x, int arity, int code, int inner) {
+    private static void composes(int arity, int code, int inner) {
+        BooleanConstraints x = new BooleanConstraints();
         int due = 0;
         for (int b = 0; b <= 1; b++) {
             for (int a = 0; a <= 1; a++) {

@@ -2,7 +2,7 @@ import java.util.ArrayList;
 import java.util.List;
 import java.util.Random;
 
-/** All promises at once: the same calls, chosen by chance from fixed seeds, to an object and to the pair.model. */
+/** All promises at once: the same calls, chosen by chance from fixed seeds, to an object and to the model. */
 public final class RandomRunsTest {
     private static final int RUNS = 700;
     private static final int CALLS = 512;

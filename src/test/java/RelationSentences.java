@@ -121,14 +121,14 @@ final class RelationSentences extends Sentences {
                 BooleanConstraints x = new BooleanConstraints();
                 x.addRelation(arity);
                 equal(x.tupleCount(0), 0);
-                equal(Portrait.tuples(x, 0), 0);
+                equal(Whole.tuples(x, 0), 0);
                 changesOnly(Given.SOME, y -> y.addRelation(asked), "relations");
             }
             BooleanConstraints x = Given.some();
             x.addRelation(4);
-            equal(Portrait.tuples(x, 4), 0);
+            equal(Whole.tuples(x, 4), 0);
             for (int relation = 0; relation < 4; relation++) {
-                equal(Portrait.tuples(x, relation), Portrait.tuples(Given.some(), relation));
+                equal(Whole.tuples(x, relation), Whole.tuples(Given.some(), relation));
             }
             BooleanConstraints again = Given.full();
             again.clear();
@@ -169,14 +169,14 @@ final class RelationSentences extends Sentences {
                     BooleanConstraints x = new BooleanConstraints();
                     x.addClause(arity, signs);
                     equal(x.arity(0), arity);
-                    equal(Portrait.tuples(x, 0), all(arity) - (1 << signs));
+                    equal(Whole.tuples(x, 0), all(arity) - (1 << signs));
                 }
             }
             BooleanConstraints x = new BooleanConstraints();
             x.addClause(3, 0b001);
             x.addComplement(0);
             x.write(1);
-            equal(Portrait.output(x), "100");
+            equal(Whole.output(x), "100");
             changesOnly(Given.SOME, y -> y.addClause(4, 15), "relations");
         });
         says("- `arity`: the arity, 1 to 4", () -> takes(1, 4, Given.NEW, ARGUMENT, (x, n) -> x.addClause(n, 1)));
@@ -215,8 +215,8 @@ final class RelationSentences extends Sentences {
                 x.addParity(arity, 0);
                 equal(x.arity(0), arity);
                 equal(x.arity(1), arity);
-                equal(Portrait.tuples(x, 0), odd[arity]);
-                equal(Portrait.tuples(x, 1), all(arity) - odd[arity]);
+                equal(Whole.tuples(x, 0), odd[arity]);
+                equal(Whole.tuples(x, 1), all(arity) - odd[arity]);
             }
             changesOnly(Given.SOME, y -> y.addParity(4, 1), "relations");
         });
@@ -270,7 +270,7 @@ final class RelationSentences extends Sentences {
                 BooleanConstraints x = ARITIES.make();
                 for (int tuple = (2 << relation) - 1; tuple >= 0; tuple--) {
                     x.addTuple(relation, tuple);
-                    equal(Portrait.tuples(x, relation), all(relation + 1) - ((1 << tuple) - 1));
+                    equal(Whole.tuples(x, relation), all(relation + 1) - ((1 << tuple) - 1));
                 }
                 equal(x.relationCount(), 4);
             }
@@ -282,7 +282,7 @@ final class RelationSentences extends Sentences {
                 BooleanConstraints x = EIGHT_OF_THREE.make();
                 x.addTuple(relation, (relation + 3) % 8);
                 for (int other = 0; other < 8; other++) {
-                    equal(Portrait.tuples(x, other), 1 << other | (other == relation ? 1 << (other + 3) % 8 : 0));
+                    equal(Whole.tuples(x, other), 1 << other | (other == relation ? 1 << (other + 3) % 8 : 0));
                 }
             }
         });
@@ -310,7 +310,7 @@ final class RelationSentences extends Sentences {
             for (int tuple = 0; tuple < 16; tuple++) {
                 BooleanConstraints x = Given.full();
                 x.removeTuple(7, tuple);
-                equal(Portrait.tuples(x, 7), 0xFFFF - (1 << tuple));
+                equal(Whole.tuples(x, 7), 0xFFFF - (1 << tuple));
                 equal(x.relationCount(), 8);
             }
             changesOnly(Given.SOME, x -> x.removeTuple(3, 0), "relations", "instance");
@@ -321,7 +321,7 @@ final class RelationSentences extends Sentences {
                 BooleanConstraints x = EIGHT_OF_THREE.make();
                 x.removeTuple(relation, relation);
                 for (int other = 0; other < 8; other++) {
-                    equal(Portrait.tuples(x, other), other == relation ? 0 : 1 << other);
+                    equal(Whole.tuples(x, other), other == relation ? 0 : 1 << other);
                 }
             }
         });
@@ -559,8 +559,8 @@ final class RelationSentences extends Sentences {
                     BooleanConstraints x = Given.objectOfSet(arity, set);
                     x.addComplement(0);
                     equal(x.arity(1), arity);
-                    equal(Portrait.tuples(x, 1), all(arity) - set);
-                    equal(Portrait.tuples(x, 0), set);
+                    equal(Whole.tuples(x, 1), all(arity) - set);
+                    equal(Whole.tuples(x, 0), set);
                 }
             }
             changesOnly(Given.SOME, x -> x.addComplement(3), "relations");
@@ -569,7 +569,7 @@ final class RelationSentences extends Sentences {
             for (int relation = 0; relation < 7; relation++) {
                 BooleanConstraints x = SEVEN.make();
                 x.addComplement(relation);
-                equal(Portrait.tuples(x, 7), 255 - (1 << relation));
+                equal(Whole.tuples(x, 7), 255 - (1 << relation));
             }
         });
         says(NEW_NUMBER, () -> numbersFollow(x -> x.addComplement(0)));
@@ -590,12 +590,12 @@ final class RelationSentences extends Sentences {
                 x.addRelation(arity);
                 x.addComplement(2);
                 int withoutLast = set & ~(1 << ((1 << arity) - 1));
-                equal(Portrait.tuples(x, x.addIntersection(0, 1)), withoutLast);
+                equal(Whole.tuples(x, x.addIntersection(0, 1)), withoutLast);
                 equal(x.arity(4), arity);
-                equal(Portrait.tuples(x, x.addIntersection(0, 2)), 0);
-                equal(Portrait.tuples(x, x.addIntersection(3, 0)), set);
-                equal(Portrait.tuples(x, x.addIntersection(3, 3)), all(arity));
-                equal(Portrait.tuples(x, 0), set);
+                equal(Whole.tuples(x, x.addIntersection(0, 2)), 0);
+                equal(Whole.tuples(x, x.addIntersection(3, 0)), set);
+                equal(Whole.tuples(x, x.addIntersection(3, 3)), all(arity));
+                equal(Whole.tuples(x, 0), set);
             }
             changesOnly(Given.SOME, x -> x.addIntersection(2, 2), "relations");
         });
@@ -604,7 +604,7 @@ final class RelationSentences extends Sentences {
                 BooleanConstraints x = Given.numbered(6, 3);
                 x.addParity(3, 0);
                 x.addIntersection(relation, 6);
-                equal(Portrait.tuples(x, 7), Integer.bitCount(relation) % 2 == 0 ? 1 << relation : 0);
+                equal(Whole.tuples(x, 7), Integer.bitCount(relation) % 2 == 0 ? 1 << relation : 0);
             }
         });
         says(OTHER_LINE, () -> {
@@ -612,7 +612,7 @@ final class RelationSentences extends Sentences {
                 BooleanConstraints x = Given.numbered(6, 3);
                 x.addParity(3, 1);
                 x.addIntersection(6, other);
-                equal(Portrait.tuples(x, 7), Integer.bitCount(other) % 2 == 1 ? 1 << other : 0);
+                equal(Whole.tuples(x, 7), Integer.bitCount(other) % 2 == 1 ? 1 << other : 0);
             }
         });
         says(NEW_NUMBER, () -> numbersFollow(x -> x.addIntersection(0, 0)));
@@ -657,26 +657,26 @@ final class RelationSentences extends Sentences {
                     for (int tuple = 0; tuple < 1 << arity; tuple++) {
                         BooleanConstraints x = Given.object(arity, tuple);
                         x.write(0);
-                        String due = new StringBuilder(Portrait.output(x)).deleteCharAt(position).toString();
+                        String due = new StringBuilder(Whole.output(x)).deleteCharAt(position).toString();
                         x.addProjection(0, position);
                         x.write(1);
-                        equal(Portrait.output(x), due);
+                        equal(Whole.output(x), due);
                     }
                 }
             }
             BooleanConstraints x = Given.object(2);
-            equal(Portrait.tuples(x, x.addProjection(0, 1)), 0);
-            equal(Portrait.tuples(x, 0), 0);
+            equal(Whole.tuples(x, x.addProjection(0, 1)), 0);
+            equal(Whole.tuples(x, 0), 0);
             changesOnly(Given.SOME, y -> y.addProjection(3, 3), "relations");
             // Two tuples that become the same one are one.
             BooleanConstraints y = Given.object(3, 0b011, 0b001, 0b100);
-            equal(Portrait.tuples(y, y.addProjection(0, 1)), 1 << 0b01 | 1 << 0b10);
+            equal(Whole.tuples(y, y.addProjection(0, 1)), 1 << 0b01 | 1 << 0b10);
         });
         says(NUMBER_LINE, () -> {
             for (int relation = 0; relation < 7; relation++) {
                 BooleanConstraints x = SEVEN.make();
                 x.addProjection(relation, 0);
-                equal(Portrait.tuples(x, 7), 1 << (relation >> 1));
+                equal(Whole.tuples(x, 7), 1 << (relation >> 1));
             }
         });
         says("- `position`: the position that is left out, 0 to arity - 1", () -> {
@@ -731,14 +731,14 @@ final class RelationSentences extends Sentences {
                 }
             }
             BooleanConstraints x = Given.object(2);
-            equal(Portrait.tuples(x, x.addExchanged(0, 0, 1)), 0);
+            equal(Whole.tuples(x, x.addExchanged(0, 0, 1)), 0);
             changesOnly(Given.SOME, y -> y.addExchanged(2, 0, 2), "relations");
         });
         says(NUMBER_LINE, () -> {
             for (int relation = 0; relation < 7; relation++) {
                 BooleanConstraints x = SEVEN.make();
                 x.addExchanged(relation, 1, 1);
-                equal(Portrait.tuples(x, 7), 1 << relation);
+                equal(Whole.tuples(x, 7), 1 << relation);
             }
         });
         says("- `i`: a position, 0 to arity - 1", () -> {
@@ -753,7 +753,7 @@ final class RelationSentences extends Sentences {
                 takes(0, arity - 1, ARITIES, INDEX, (x, j) -> x.addExchanged(relation, 0, j));
                 BooleanConstraints x = Given.objectOfSet(arity, 0x2D6A & all(arity));
                 for (int j = 0; j < arity; j++) {
-                    equal(Portrait.tuples(x, x.addExchanged(0, j, j)), 0x2D6A & all(arity));
+                    equal(Whole.tuples(x, x.addExchanged(0, j, j)), 0x2D6A & all(arity));
                 }
             }
         });
@@ -778,13 +778,13 @@ final class RelationSentences extends Sentences {
         for (int tuple = 0; tuple < 1 << arity; tuple++) {
             BooleanConstraints x = Given.object(arity, tuple);
             x.write(0);
-            StringBuilder due = new StringBuilder(Portrait.output(x));
+            StringBuilder due = new StringBuilder(Whole.output(x));
             char kept = due.charAt(i);
             due.setCharAt(i, due.charAt(j));
             due.setCharAt(j, kept);
             x.addExchanged(0, i, j);
             x.write(1);
-            equal(Portrait.output(x), due.toString());
+            equal(Whole.output(x), due.toString());
             equal(x.arity(1), arity);
         }
     }

@@ -4,27 +4,42 @@ import java.lang.management.ManagementFactory;
 public final class RoomTest {
     private static final Check CHECK = new Check("RoomTest");
 
+    private static final com.sun.management.ThreadMXBean THREADS =
+        (com.sun.management.ThreadMXBean) ManagementFactory.getThreadMXBean();
+
+    /** A round has 45 calls, so ten are what an object may be asked for. */
+    private static final int ROUNDS = 10;
+    private static final int OBJECTS = 100;
+
     public static void main(String[] args) {
-        BooleanConstraints x = new BooleanConstraints();
-        com.sun.management.ThreadMXBean threads =
-            (com.sun.management.ThreadMXBean) ManagementFactory.getThreadMXBean();
-        for (int i = 0; i < 5; i++) {
-            round(x);
-        }
-        long before = threads.getCurrentThreadAllocatedBytes();
-        for (int i = 0; i < 1000; i++) {
-            round(x);
-        }
-        long made = threads.getCurrentThreadAllocatedBytes() - before;
-        CHECK.isTrue("1000 rounds of calls make " + made + " bytes of objects", made < 100_000);
-        long beforeObjects = threads.getCurrentThreadAllocatedBytes();
-        for (int i = 0; i < 100; i++) {
-            x = new BooleanConstraints();
-        }
-        long each = (threads.getCurrentThreadAllocatedBytes() - beforeObjects) / 100;
+        rounds(made());
+        BooleanConstraints[] objects = made();
+        long before = THREADS.getCurrentThreadAllocatedBytes();
+        rounds(objects);
+        long bytes = THREADS.getCurrentThreadAllocatedBytes() - before;
+        CHECK.isTrue("1000 rounds of calls make " + bytes + " bytes of objects", bytes < 100_000);
+        long beforeObjects = THREADS.getCurrentThreadAllocatedBytes();
+        BooleanConstraints[] more = made();
+        long each = (THREADS.getCurrentThreadAllocatedBytes() - beforeObjects) / OBJECTS;
         CHECK.isTrue("an object takes " + each + " bytes", each < 2_000);
-        CHECK.equal("the last object is new", x.relationCount(), 0);
+        CHECK.equal("the last object is new", more[OBJECTS - 1].relationCount(), 0);
         CHECK.end();
+    }
+
+    private static BooleanConstraints[] made() {
+        BooleanConstraints[] objects = new BooleanConstraints[OBJECTS];
+        for (int i = 0; i < OBJECTS; i++) {
+            objects[i] = new BooleanConstraints();
+        }
+        return objects;
+    }
+
+    private static void rounds(BooleanConstraints[] objects) {
+        for (BooleanConstraints x : objects) {
+            for (int i = 0; i < ROUNDS; i++) {
+                round(x);
+            }
+        }
     }
 
     private static void round(BooleanConstraints x) {

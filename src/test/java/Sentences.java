@@ -1,7 +1,5 @@
 import java.util.ArrayList;
-import java.util.IdentityHashMap;
 import java.util.List;
-import java.util.Map;
 import java.util.NoSuchElementException;
 
 /** Tests of the document's sentences: each sentence with the checks that fail if it is broken. */
@@ -15,8 +13,6 @@ abstract class Sentences {
     static final Class<IndexOutOfBoundsException> INDEX = IndexOutOfBoundsException.class;
     static final Class<UnsupportedOperationException> KIND = UnsupportedOperationException.class;
     static final Class<NoSuchElementException> NONE = NoSuchElementException.class;
-
-    private static final Map<Whole.Start, Map<String, String>> KNOWN = new IdentityHashMap<>();
 
     private final Check check;
     private final List<String> told = new ArrayList<>();
@@ -75,9 +71,7 @@ abstract class Sentences {
 
     /** The call throws just this exception, and leaves everything as it was. */
     void refuses(Whole.Start start, Class<? extends RuntimeException> due, Whole.Act act) {
-        BooleanConstraints x = start.make();
-        fails(due, () -> act.on(x));
-        changesOnly(start, act);
+        check.refuses(start, key, due, act);
     }
 
     /** The call answers this, and leaves everything as it was. */
@@ -89,17 +83,7 @@ abstract class Sentences {
 
     /** The call leaves all parts as they were but those whose names start with one of these words. */
     void changesOnly(Whole.Start start, Whole.Act act, String... words) {
-        Map<String, String> before = KNOWN.computeIfAbsent(start, made -> Whole.of(made, null));
-        Map<String, String> after = Whole.of(start, act);
-        for (String part : before.keySet()) {
-            boolean mayChange = false;
-            for (String word : words) {
-                mayChange |= part.startsWith(word);
-            }
-            if (!mayChange) {
-                check.equal(key + " (" + part + ")", after.get(part), before.get(part));
-            }
-        }
+        check.changesOnly(start, key, act, words);
     }
 
     /** Numbers within a range are not refused by this exception, and those outside are, and change nothing. */

@@ -16,8 +16,8 @@ final class SnapshotSentences extends Sentences {
 
     /** Behind a change of everything and restoreSnapshot, what a snapshot saves is as in another object. */
     private void restores(Whole.Start saved, Whole.Act change) {
-        java.util.Map<String, String> due = Whole.of(saved, null);
-        java.util.Map<String, String> got = Whole.of(saved, x -> {
+        java.util.Map<String, String> due = Whole.of(saved);
+        java.util.Map<String, String> got = Whole.behind(saved, x -> {
             x.saveSnapshot();
             change.on(x);
             return x.restoreSnapshot();
@@ -95,8 +95,8 @@ final class SnapshotSentences extends Sentences {
 
     /** The snapshot of a full object comes back behind changes of all its parts. */
     private void mostIsRestored() {
-        java.util.Map<String, String> due = Whole.of(Given.FULL, null);
-        java.util.Map<String, String> got = Whole.of(Given.FULL, x -> {
+        java.util.Map<String, String> due = Whole.of(Given.FULL);
+        java.util.Map<String, String> got = Whole.behind(Given.FULL, x -> {
             changeTheMost(x);
             return x.restoreSnapshot();
         });
@@ -110,7 +110,7 @@ final class SnapshotSentences extends Sentences {
                 changesOnly(start, BooleanConstraints::restoreSnapshot, "relations", "instance");
             }
             mostIsRestored();
-            java.util.Map<String, String> some = Whole.of(Given.SOME, BooleanConstraints::restoreSnapshot);
+            java.util.Map<String, String> some = Whole.behind(Given.SOME, BooleanConstraints::restoreSnapshot);
             equal(some.get("relations"), " 1:2 2:6 3:223");
             equal(some.get("instance variables"), "3");
             BooleanConstraints x = Given.some();

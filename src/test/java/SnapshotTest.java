@@ -3,6 +3,13 @@ public final class SnapshotTest {
     private static final Check CHECK = new Check("SnapshotTest");
     private static final Class<IllegalStateException> STATE = IllegalStateException.class;
 
+    private static final Whole.Start EXAMPLE = SnapshotTest::example;
+    private static final Whole.Start SAVED = () -> {
+        BooleanConstraints x = example();
+        x.saveSnapshot();
+        return x;
+    };
+
     public static void main(String[] args) {
         save();
         restore();
@@ -20,13 +27,13 @@ public final class SnapshotTest {
         return x;
     }
 
-    private static void changeAll(BooleanConstraints x) {
+    private static Object changeAll(BooleanConstraints x) {
         x.addTuple(0, 5);
         x.removeTuple(1, 1);
         x.removeLastConstraint();
         x.addConstraint(1, 3, 4, 0, 0);
         x.addConstraint(0, 3, 4, 5, 0);
-        x.addRelation(4);
+        return x.addRelation(4);
     }
 
     private static void save() {
@@ -36,28 +43,33 @@ public final class SnapshotTest {
         CHECK.equal("54: relations", x.saveSnapshot(), 1);
         x.clear();
         CHECK.equal("54: the later one counts", x.restoreSnapshot(), 1);
-        BooleanConstraints y = example();
-        String before = Portrait.of(y);
-        CHECK.equal("54: two relations", y.saveSnapshot(), 2);
-        CHECK.equal("54: nothing changes", Portrait.of(y), before);
+        CHECK.equal("54: two relations", example().saveSnapshot(), 2);
+        CHECK.changesOnly(EXAMPLE, "54: nothing else changes", BooleanConstraints::saveSnapshot, "snapshot");
     }
 
     private static void restore() {
-        BooleanConstraints x = example();
-        CHECK.failsAndKeeps(x, "55: none", STATE, x::restoreSnapshot);
-        String before = Portrait.of(x);
-        x.saveSnapshot();
+        CHECK.refuses(EXAMPLE, "55: none", STATE, BooleanConstraints::restoreSnapshot);
+        CHECK.isFalse("55: changed", Whole.behind(EXAMPLE, SnapshotTest::changeAll).equals(Whole.of(EXAMPLE)));
+        CHECK.changesOnly(SAVED, "55: as before", x -> {
+            changeAll(x);
+            return x.restoreSnapshot();
+        });
+        CHECK.changesOnly(SAVED, "55: the snapshot is kept", x -> {
+            changeAll(x);
+            x.restoreSnapshot();
+            x.clear();
+            x.setVariables(2);
+            return x.restoreSnapshot();
+        });
+        CHECK.changesOnly(SAVED, "55: the changes behind it are not in it", x -> {
+            x.restoreSnapshot();
+            changeAll(x);
+            return x.restoreSnapshot();
+        });
+        BooleanConstraints x = SAVED.make();
         changeAll(x);
-        CHECK.isFalse("55: changed", Portrait.of(x).equals(before));
         CHECK.equal("55: relations", x.restoreSnapshot(), 2);
-        CHECK.equal("55: as before", Portrait.of(x), before);
-        x.clear();
-        x.setVariables(2);
-        CHECK.equal("55: again", x.restoreSnapshot(), 2);
-        CHECK.equal("55: the snapshot is kept", Portrait.of(x), before);
-        changeAll(x);
-        CHECK.equal("55: the changes behind it are not in it", x.restoreSnapshot(), 2);
-        CHECK.equal("55: the changes behind it are not in it", Portrait.of(x), before);
+        CHECK.equal("55: relations again", x.restoreSnapshot(), 2);
         CHECK.equal("55: the constraints go on", x.addConstraint(0, 0, 1, 2, 0), 2);
         CHECK.equal("55: the relations go on", x.addRelation(1), 2);
         BooleanConstraints y = new BooleanConstraints();
@@ -65,7 +77,7 @@ public final class SnapshotTest {
         y.addRelation(1);
         y.setVariables(10);
         CHECK.equal("55: nothing", y.restoreSnapshot(), 0);
-        CHECK.equal("55: one variable", Portrait.variables(y), 1);
+        CHECK.equal("55: one variable", Whole.variables(y), 1);
     }
 
     private static void whatStays() {
@@ -76,7 +88,7 @@ public final class SnapshotTest {
         x.write(1);
         x.storeFlags(0, 4, 1);
         x.restoreSnapshot();
-        CHECK.equal("55: the output stays", Portrait.output(x), "10,01");
+        CHECK.equal("55: the output stays", Whole.output(x), "10,01");
         CHECK.equal("55: the flags stay", x.takeFlags(0, 0), 2);
         CHECK.equal("55: the input stays", x.parse(), 2);
         CHECK.fails("55: wrong text", IllegalArgumentException.class, x::parse);

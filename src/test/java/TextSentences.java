@@ -28,12 +28,12 @@ final class TextSentences extends Sentences {
             Given.type(x, "100,011");
             x.parse();
             equal(x.arity(0), 3);
-            equal(Portrait.tuples(x, 0), 1 << 0b001 | 1 << 0b110);
+            equal(Whole.tuples(x, 0), 1 << 0b001 | 1 << 0b110);
             changesOnly(Given.SOME, y -> y.append(','), "input");
             BooleanConstraints some = Given.some();
             Given.type(some, ",000");
             some.parse();
-            equal(Portrait.tuples(some, 4), 1 << 0b110 | 1 << 0b011 | 1);
+            equal(Whole.tuples(some, 4), 1 << 0b110 | 1 << 0b011 | 1);
         });
         says("- `character`: the character, with a code from 32 to 126", () -> {
             for (int code : new int[] {0, 31, 127, 65535}) {
@@ -97,7 +97,7 @@ final class TextSentences extends Sentences {
             due |= 1 << tuple;
         }
         equal(x.arity(0), arity);
-        equal(Portrait.tuples(x, 0), due);
+        equal(Whole.tuples(x, 0), due);
     }
 
     private void parse() {
@@ -114,7 +114,7 @@ final class TextSentences extends Sentences {
             changesOnly(Given.SOME, BooleanConstraints::parse, "relations", "input");
             BooleanConstraints x = Given.some();
             x.parse();
-            equal(Portrait.tuples(x, 4), 1 << 0b110 | 1 << 0b011);
+            equal(Whole.tuples(x, 4), 1 << 0b110 | 1 << 0b011);
             equal(x.relationCount(), 5);
         });
         says("The input is empty afterwards, whatever happens.", () -> {
@@ -254,7 +254,7 @@ final class TextSentences extends Sentences {
 
     private void writes(BooleanConstraints x, int relation, String due) {
         equal(x.write(relation), due.length());
-        equal(Portrait.output(x), due);
+        equal(Whole.output(x), due);
     }
 
     private void write() {
@@ -269,7 +269,7 @@ final class TextSentences extends Sentences {
             for (int set = 1; set < 256; set++) {
                 BooleanConstraints x = Given.objectOfSet(3, set);
                 x.write(0);
-                Given.type(x, Portrait.output(x));
+                Given.type(x, Whole.output(x));
                 x.parse();
                 isTrue(x.areEqual(0, 1));
             }
@@ -277,7 +277,7 @@ final class TextSentences extends Sentences {
             changesOnly(Given.FULL, x -> x.write(0), "output");
         });
         says("The output is empty at first.", () -> {
-            equal(Portrait.output(new BooleanConstraints()), "");
+            equal(Whole.output(new BooleanConstraints()), "");
             fails(INDEX, () -> new BooleanConstraints().outputAt(0));
             fails(INDEX, () -> Given.numbered(8, 4).outputAt(0));
         });
@@ -326,7 +326,7 @@ final class TextSentences extends Sentences {
             }
             BooleanConstraints x = Given.some();
             x.clear();
-            equal(Portrait.output(x), "10,01");
+            equal(Whole.output(x), "10,01");
         });
         says("- `index`: the index, from 0", () -> {
             takes(0, -1, Given.NEW, INDEX, BooleanConstraints::outputAt);

@@ -16,12 +16,6 @@ public final class TextTest {
         CHECK.end();
     }
 
-    private static void type(BooleanConstraints x, String text) {
-        for (int i = 0; i < text.length(); i++) {
-            x.append(text.charAt(i));
-        }
-    }
-
     private static BooleanConstraints full() {
         BooleanConstraints x = new BooleanConstraints();
         for (int i = 0; i < 8; i++) {
@@ -31,48 +25,54 @@ public final class TextTest {
     }
 
     private static void append() {
-        BooleanConstraints x = new BooleanConstraints();
-        int length = 0;
         for (int code = 0; code < 65536; code++) {
+            BooleanConstraints x = new BooleanConstraints();
             final char character = (char) code;
-            if (code < 32 || code > 126) {
-                CHECK.fails("46: code " + code, ARGUMENT, () -> x.append(character));
+            boolean isOne = code >= 32 && code <= 126;
+            if (isOne) {
+                CHECK.equal("46: code " + code, x.append(character), 1);
             } else {
-                if (length == 60) {
-                    CHECK.fails("46: the input is full", STATE, () -> x.append(character));
-                    CHECK.fails("46: the code before the length", ARGUMENT, () -> x.append((char) 127));
-                    CHECK.fails("46: empties the input", ARGUMENT, x::parse);
-                    length = 0;
-                }
-                length++;
-                CHECK.equal("46: length", x.append(character), length);
+                CHECK.fails("46: code " + code, ARGUMENT, () -> x.append(character));
             }
+            CHECK.equal("46: behind code " + code, x.append('0'), isOne ? 2 : 1);
         }
-        BooleanConstraints y = new BooleanConstraints();
-        type(y, "01,10,01,10,01,10,01,10,01,10,01,10,01,10,01,10,01,10,01,10");
-        CHECK.equal("46: 60 characters", y.append(','), 60);
-        CHECK.fails("46: a character more", STATE, () -> y.append('1'));
-        CHECK.fails("46: the comma is the last character", ARGUMENT, y::parse);
-        CHECK.equal("46: the comma is the last character", y.errorPosition(), 60);
+        Whole.Start full = () -> {
+            BooleanConstraints x = new BooleanConstraints();
+            for (int length = 1; length <= 60; length++) {
+                CHECK.equal("46: length", x.append(length % 3 == 0 ? ',' : '1'), length);
+            }
+            return x;
+        };
+        for (char character = 32; character <= 126; character++) {
+            final char asked = character;
+            CHECK.fails("46: the input is full", STATE, () -> full.make().append(asked));
+        }
+        CHECK.refuses(full, "46: a character more", STATE, x -> x.append('1'));
+        CHECK.refuses(full, "46: the code before the length", ARGUMENT, x -> x.append((char) 31));
+        CHECK.refuses(full, "46: the code before the length", ARGUMENT, x -> x.append((char) 127));
+        BooleanConstraints x = full.make();
+        CHECK.fails("46: the comma is the last character", ARGUMENT, x::parse);
+        CHECK.equal("46: the comma is the last character", x.errorPosition(), 60);
+        CHECK.equal("46: the input is empty again", x.append('1'), 1);
     }
 
     private static void reads(String text, int arity, int... tuples) {
         BooleanConstraints x = new BooleanConstraints();
-        type(x, text);
+        Given.type(x, text);
         CHECK.equal("47: " + text, x.parse(), 0);
         CHECK.equal("47: arity of " + text, x.arity(0), arity);
         int due = 0;
         for (int tuple : tuples) {
             due |= 1 << tuple;
         }
-        CHECK.equal("47: tuples of " + text, Portrait.tuples(x, 0), due);
+        CHECK.equal("47: tuples of " + text, Whole.tuples(x, 0), due);
         CHECK.equal("47: the input is empty", x.append('0'), 1);
         CHECK.fails("47: no error", STATE, x::errorPosition);
     }
 
     private static void refuses(String text, int position) {
         BooleanConstraints x = new BooleanConstraints();
-        type(x, text);
+        Given.type(x, text);
         CHECK.refusesText(x, text, position);
     }
 
@@ -146,7 +146,7 @@ public final class TextTest {
 
     private static void oneText(String text, java.util.Set<String> prefixes, java.util.Set<String> valid) {
         BooleanConstraints x = new BooleanConstraints();
-        type(x, text);
+        Given.type(x, text);
         if (valid.contains(text)) {
             CHECK.equal("47: " + text, x.parse(), 0);
             return;
@@ -158,36 +158,48 @@ public final class TextTest {
         CHECK.refusesText(x, text, position);
     }
 
+    private static Whole.Start fullWith(String text) {
+        return () -> {
+            BooleanConstraints x = full();
+            Given.type(x, text);
+            return x;
+        };
+    }
+
     private static void parseKeeps() {
-        BooleanConstraints x = full();
-        type(x, "01");
-        CHECK.failsAndKeeps(x, "47: a ninth", STATE, x::parse);
+        Whole.Act parse = BooleanConstraints::parse;
+        CHECK.changesOnly(fullWith("01"), "47: a ninth", parse, "input");
+        for (String wrong : new String[] {"2", "", "0,"}) {
+            CHECK.changesOnly(fullWith(wrong), "47: wrong, and no room", parse, "input", "error");
+        }
+        BooleanConstraints x = fullWith("01").make();
+        CHECK.fails("47: a ninth", STATE, x::parse);
+        CHECK.fails("47: no error position", STATE, x::errorPosition);
         CHECK.equal("47: the input is empty behind it", x.append('2'), 1);
-        String before = Portrait.of(x).replaceAll(" error .*", "");
         CHECK.fails("47: the text before the number of relations", ARGUMENT, x::parse);
-        CHECK.equal("47: but for the error position all stays", Portrait.of(x), before + " error 0");
+        CHECK.equal("47: the error position", x.errorPosition(), 0);
         CHECK.equal("47: the input is empty behind it", x.append('0'), 1);
         CHECK.fails("47: a ninth again", STATE, x::parse);
         CHECK.fails("47: an empty input before the number", ARGUMENT, x::parse);
         CHECK.equal("47: relations", x.relationCount(), 8);
         BooleanConstraints y = new BooleanConstraints();
         y.addClause(2, 0);
-        type(y, "011");
+        Given.type(y, "011");
         CHECK.equal("47: number", y.parse(), 1);
-        type(y, "1111");
+        Given.type(y, "1111");
         y.parse();
-        type(y, "1");
+        Given.type(y, "1");
         y.parse();
-        CHECK.equal("47: what stood there before is gone", Portrait.tuples(y, 3), 2);
+        CHECK.equal("47: what stood there before is gone", Whole.tuples(y, 3), 2);
     }
 
     private static void errorPosition() {
+        CHECK.refuses(Given.NEW, "48: no call", STATE, BooleanConstraints::errorPosition);
         BooleanConstraints x = new BooleanConstraints();
-        CHECK.failsAndKeeps(x, "48: no call", STATE, x::errorPosition);
         x.append('1');
         x.parse();
         CHECK.fails("48: no wrong text", STATE, x::errorPosition);
-        type(x, "10,1,");
+        Given.type(x, "10,1,");
         CHECK.fails("48: wrong", ARGUMENT, x::parse);
         CHECK.equal("48: position", x.errorPosition(), 4);
         x.append('0');
@@ -209,12 +221,12 @@ public final class TextTest {
 
     private static void writes(BooleanConstraints x, int relation, String due) {
         CHECK.equal("49: length of " + due, x.write(relation), due.length());
-        CHECK.equal("49: output", Portrait.output(x), due);
+        CHECK.equal("49: output", Whole.output(x), due);
     }
 
     private static void write() {
+        CHECK.refuses(Given.NEW, "49: relation", INDEX, y -> y.write(0));
         BooleanConstraints x = new BooleanConstraints();
-        CHECK.failsAndKeeps(x, "49: relation", INDEX, () -> x.write(0));
         x.addRelation(3);
         writes(x, 0, "");
         x.addTuple(0, 6);
@@ -228,10 +240,10 @@ public final class TextTest {
         x.addComplement(2);
         writes(x, 3, "0000,1000,0100,1100,0010,1010,0110,1110,0001,1001,0101,1101,0011,1011,0111,1111");
         writes(x, 0, "100,011");
-        CHECK.failsAndKeeps(x, "49: relation", INDEX, () -> x.write(4));
-        CHECK.failsAndKeeps(x, "49: relation", INDEX, () -> x.write(-1));
+        CHECK.refuses(Given.SOME, "49: relation", INDEX, y -> y.write(4));
+        CHECK.refuses(Given.SOME, "49: relation", INDEX, y -> y.write(-1));
         x.removeTuple(0, 1);
-        CHECK.equal("49: the output is from the time of the call", Portrait.output(x), "100,011");
+        CHECK.equal("49: the output is from the time of the call", Whole.output(x), "100,011");
         writes(x, 2, "");
         for (int set = 1; set < 16; set++) {
             readsWhatItWrites(set);
@@ -241,27 +253,32 @@ public final class TextTest {
     private static void readsWhatItWrites(int set) {
         BooleanConstraints x = Given.objectOfSet(2, set);
         x.write(0);
-        type(x, Portrait.output(x));
+        Given.type(x, Whole.output(x));
         x.parse();
         CHECK.isTrue("49: read again", x.areEqual(0, 1));
     }
 
-    private static void outputAt() {
+    private static BooleanConstraints written() {
         BooleanConstraints x = new BooleanConstraints();
-        CHECK.failsAndKeeps(x, "50: empty at first", INDEX, () -> x.outputAt(0));
         x.addParity(2, 1);
         x.write(0);
+        return x;
+    }
+
+    private static void outputAt() {
+        CHECK.refuses(Given.NEW, "50: empty at first", INDEX, y -> y.outputAt(0));
+        for (int wrong : new int[] {5, -1, 79, Integer.MIN_VALUE, Integer.MAX_VALUE}) {
+            CHECK.refuses(TextTest::written, "50: index", INDEX, y -> y.outputAt(wrong));
+        }
+        BooleanConstraints x = written();
         CHECK.equal("50: first", x.outputAt(0), '1');
         CHECK.equal("50: second", x.outputAt(1), '0');
         CHECK.equal("50: comma", x.outputAt(2), ',');
         CHECK.equal("50: last", x.outputAt(4), '1');
-        for (int wrong : new int[] {5, -1, 79, Integer.MIN_VALUE, Integer.MAX_VALUE}) {
-            CHECK.failsAndKeeps(x, "50: index", INDEX, () -> x.outputAt(wrong));
-        }
         x.clear();
         CHECK.equal("50: clear keeps the output", x.outputAt(4), '1');
         x.addRelation(2);
         x.write(0);
-        CHECK.failsAndKeeps(x, "50: an empty text", INDEX, () -> x.outputAt(0));
+        CHECK.fails("50: an empty text", INDEX, () -> x.outputAt(0));
     }
 }

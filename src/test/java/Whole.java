@@ -1,3 +1,4 @@
+import java.util.IdentityHashMap;
 import java.util.LinkedHashMap;
 import java.util.Map;
 
@@ -23,10 +24,13 @@ final class Whole {
 
     private static final Map<String, View> VIEWS = new LinkedHashMap<>();
 
+    /** What was told of objects that were made in the same way before. */
+    private static final Map<Start, Map<String, String>> KNOWN = new IdentityHashMap<>();
+
     static {
         VIEWS.put("relations", Whole::relations);
         instanceViews("instance", x -> { });
-        VIEWS.put("output", Portrait::output);
+        VIEWS.put("output", Whole::output);
         VIEWS.put("flags", Whole::flags);
         VIEWS.put("error", x -> Check.outcome(x::errorPosition));
         VIEWS.put("input length", x -> Check.outcome(() -> x.append('0')));
@@ -60,17 +64,44 @@ final class Whole {
         }
     }
 
-    /** The parts of an object that was made so, and behind a call, if one is given. */
-    static Map<String, String> of(Start start, Act act) {
+    /** The parts of an object that was made so. */
+    static Map<String, String> of(Start start) {
+        return KNOWN.computeIfAbsent(start, made -> behind(made, x -> null));
+    }
+
+    /** The parts of an object that was made so, behind a call. */
+    static Map<String, String> behind(Start start, Act act) {
         Map<String, String> parts = new LinkedHashMap<>();
         for (Map.Entry<String, View> view : VIEWS.entrySet()) {
             BooleanConstraints x = start.make();
-            if (act != null) {
-                Check.outcome(() -> act.on(x));
-            }
+            Check.outcome(() -> act.on(x));
             parts.put(view.getKey(), view.getValue().of(x));
         }
         return parts;
+    }
+
+    /** The tuples of a relation as a set: bit t for tuple t. */
+    static int tuples(BooleanConstraints x, int relation) {
+        int set = 0;
+        int arity = x.arity(relation);
+        for (int tuple = 0; tuple < 1 << arity; tuple++) {
+            if (x.contains(relation, tuple)) {
+                set |= 1 << tuple;
+            }
+        }
+        return set;
+    }
+
+    static String output(BooleanConstraints x) {
+        StringBuilder text = new StringBuilder();
+        try {
+            for (int i = 0; i < 100; i++) {
+                text.append(x.outputAt(i));
+            }
+        } catch (IndexOutOfBoundsException e) {
+            return text.toString();
+        }
+        return text.append(" and no end").toString();
     }
 
     static int variables(BooleanConstraints x) {
@@ -88,7 +119,7 @@ final class Whole {
     private static String relations(BooleanConstraints x) {
         StringBuilder text = new StringBuilder();
         for (int relation = 0; relation < x.relationCount(); relation++) {
-            text.append(' ').append(x.arity(relation)).append(':').append(Portrait.tuples(x, relation));
+            text.append(' ').append(x.arity(relation)).append(':').append(tuples(x, relation));
         }
         return text.toString();
     }
