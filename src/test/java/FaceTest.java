@@ -127,7 +127,8 @@ public final class FaceTest {
         Matcher signatures = Pattern.compile("(?m)^## Promise \\d+: .*\n\n`(.*)`$").matcher(document);
         int promises = 0;
         while (signatures.find()) {
-            CHECK.isTrue("the class has " + signatures.group(1), words.contains(" public " + signatures.group(1) + " {"));
+            String due = " public " + signatures.group(1) + " {";
+            CHECK.isTrue("the class has" + due, words.contains(due));
             promises++;
         }
         CHECK.equal("promises", promises, FACE.length + 1);

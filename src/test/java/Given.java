@@ -28,13 +28,20 @@ final class Given {
 
     /** An object with one relation that has the tuples of a set: bit t for tuple t. */
     static BooleanConstraints objectOfSet(int arity, int set) {
-        BooleanConstraints x = object(arity);
+        BooleanConstraints x = new BooleanConstraints();
+        relationOfSet(x, arity, set);
+        return x;
+    }
+
+    /** The number of a new relation that has those tuples of a set that its arity has. */
+    static int relationOfSet(BooleanConstraints x, int arity, int set) {
+        int relation = x.addRelation(arity);
         for (int tuple = 0; tuple < 1 << arity; tuple++) {
             if ((set >> tuple & 1) != 0) {
-                x.addTuple(0, tuple);
+                x.addTuple(relation, tuple);
             }
         }
-        return x;
+        return relation;
     }
 
     /** An object with relations of one arity, each with a single tuple: its own number, as far as the arity goes. */

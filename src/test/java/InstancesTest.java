@@ -62,7 +62,7 @@ public final class InstancesTest {
         x.addParity(3, 1);
         x.addRelation(1);
         for (int i = 0; i < 20; i++) {
-            CHECK.equal("33: number", x.addConstraint(0, i % 3, 1, 2, 0), i);
+            x.addConstraint(0, i % 3, 1, 2, 0);
         }
         return x;
     }
@@ -76,6 +76,10 @@ public final class InstancesTest {
     }
 
     private static void addConstraint() {
+        BooleanConstraints numbered = oddOfThree();
+        for (int number = 1; number < 20; number++) {
+            CHECK.equal("33: number", numbered.addConstraint(0, number % 3, 1, 2, 0), number);
+        }
         Whole.Start twenty = InstancesTest::twentyConstraints;
         CHECK.refuses(twenty, "33: a constraint more", STATE, x -> x.addConstraint(0, 0, 1, 2, 0));
         CHECK.refuses(twenty, "33: variable before room", INDEX, x -> x.addConstraint(0, 0, 1, 3, 0));
@@ -337,11 +341,9 @@ public final class InstancesTest {
     /** All variables have the value 1. */
     private static BooleanConstraints allOnes(int count) {
         BooleanConstraints x = Given.withVariables(count);
-        CHECK.equal("41: all", x.dimension(), count);
         x.addParity(1, 1);
         for (int variable = 0; variable < count; variable++) {
             x.addConstraint(0, variable, 0, 0, 0);
-            CHECK.equal("41: a variable less", x.dimension(), count - 1 - variable);
         }
         return x;
     }
@@ -357,6 +359,13 @@ public final class InstancesTest {
         Whole.Act dimension = BooleanConstraints::dimension;
         for (int i = 1; i <= 10; i++) {
             final int count = i;
+            CHECK.equal("41: all", Given.withVariables(count).dimension(), count);
+            BooleanConstraints x = allOnes(count);
+            CHECK.equal("41: one solution", x.dimension(), 0);
+            for (int variable = 0; variable < count; variable++) {
+                x.removeLastConstraint();
+                CHECK.equal("41: a variable more", x.dimension(), variable + 1);
+            }
             CHECK.refuses(() -> contradiction(count), "41: no solutions", NONE, dimension);
             CHECK.refuses(() -> withClause(contradiction(count), 0), "41: kind before solutions", KIND, dimension);
             CHECK.refuses(() -> withClause(allOnes(count), 0), "41: kind", KIND, dimension);

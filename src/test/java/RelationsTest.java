@@ -47,12 +47,7 @@ public final class RelationsTest {
     private static BooleanConstraints ofEachArity(int set) {
         BooleanConstraints x = new BooleanConstraints();
         for (int arity = 1; arity <= 4; arity++) {
-            x.addRelation(arity);
-            for (int tuple = 0; tuple < 1 << arity; tuple++) {
-                if ((set >> tuple & 1) != 0) {
-                    x.addTuple(arity - 1, tuple);
-                }
-            }
+            Given.relationOfSet(x, arity, set);
         }
         return x;
     }

@@ -36,11 +36,13 @@ public final class TextTest {
             }
             CHECK.equal("46: behind code " + code, x.append('0'), isOne ? 2 : 1);
         }
+        BooleanConstraints longer = new BooleanConstraints();
+        for (int length = 1; length <= 60; length++) {
+            CHECK.equal("46: length", longer.append('1'), length);
+        }
         Whole.Start full = () -> {
             BooleanConstraints x = new BooleanConstraints();
-            for (int length = 1; length <= 60; length++) {
-                CHECK.equal("46: length", x.append(length % 3 == 0 ? ',' : '1'), length);
-            }
+            Given.type(x, "01,".repeat(20));
             return x;
         };
         for (char character = 32; character <= 126; character++) {
